@@ -1,0 +1,20 @@
+/** Runs every test of the project; ends with exit code 1 if an answer was not as due. */
+public final class AllTests {
+    private AllTests() {
+    }
+
+    public static void main(String[] args) {
+        FaceTests.run();
+        TextTests.run();
+        MachineTests.run();
+        RoundTests.run();
+        WordTests.run();
+        ChangeTests.run();
+        RoomTests.run();
+        RandomTests.run();
+        System.out.println(Check.made + " answers, " + Check.wrong + " wrong");
+        if (Check.wrong != 0) {
+            System.exit(1);
+        }
+    }
+}
