@@ -61,7 +61,7 @@ public final class LetterAuction {
         return reader.filled;
     }
 
-    public int parse(int length) {
+    public int parse(int length) throws IllegalArgumentException {
         checkArgument(length, 0, reader.filled);
         boolean described = reader.readInto(draft, length);
         reader.filled = 0;
@@ -80,7 +80,7 @@ public final class LetterAuction {
         return reader.errorStart;
     }
 
-    public int size(int what) {
+    public int size(int what) throws IllegalArgumentException {
         switch (what) {
             case 0: return plan.machines;
             case 1: return plan.letters;
@@ -97,7 +97,7 @@ public final class LetterAuction {
 
     // ---- machines
 
-    public int machine(int machine, int what) {
+    public int machine(int machine, int what) throws IndexOutOfBoundsException, IllegalArgumentException {
         checkMachine(machine);
         switch (what) {
             case 0: return now.state[machine];
@@ -111,29 +111,29 @@ public final class LetterAuction {
         }
     }
 
-    public int strength(int machine, int state) {
+    public int strength(int machine, int state) throws IndexOutOfBoundsException {
         checkState(machine, state);
         return now.strengths[machine * MAX_STATES + state];
     }
 
-    public boolean isAccepting(int machine, int state) {
+    public boolean isAccepting(int machine, int state) throws IndexOutOfBoundsException {
         checkState(machine, state);
         return plan.isGoal(machine, state);
     }
 
-    public int goes(int machine, int state, int letter) {
+    public int goes(int machine, int state, int letter) throws IndexOutOfBoundsException {
         checkState(machine, state);
         checkLetter(letter);
         return plan.target(machine, state, letter);
     }
 
-    public int distance(int machine, int state) {
+    public int distance(int machine, int state) throws IndexOutOfBoundsException {
         checkState(machine, state);
         bids.measure(plan, now, machine);
         return bids.away[state];
     }
 
-    public int whyNotBid(int machine, int letter) {
+    public int whyNotBid(int machine, int letter) throws IndexOutOfBoundsException {
         checkMachine(machine);
         checkLetter(letter);
         return bids.obstacle(plan, now, machine, letter);
@@ -141,19 +141,19 @@ public final class LetterAuction {
 
     // ---- the next round; nothing changes
 
-    public int bidLetter(int machine) {
+    public int bidLetter(int machine) throws IndexOutOfBoundsException {
         checkMachine(machine);
         bids.collect(plan, now);
         return bids.wanted[machine];
     }
 
-    public int bid(int machine) {
+    public int bid(int machine) throws IndexOutOfBoundsException {
         checkMachine(machine);
         bids.collect(plan, now);
         return bids.offered[machine];
     }
 
-    public int sum(int letter) {
+    public int sum(int letter) throws IndexOutOfBoundsException {
         checkLetter(letter);
         bids.collect(plan, now);
         return bids.sums[letter];
@@ -169,13 +169,13 @@ public final class LetterAuction {
         return bids.cost;
     }
 
-    public int pays(int machine) {
+    public int pays(int machine) throws IndexOutOfBoundsException {
         checkMachine(machine);
         bids.collect(plan, now);
         return bids.paid[machine];
     }
 
-    public int coinsAfter(int machine, int rounds) {
+    public int coinsAfter(int machine, int rounds) throws IndexOutOfBoundsException, IllegalArgumentException {
         checkMachine(machine);
         checkArgument(rounds, 1, MAX_ROUNDS);
         trial.copyFrom(now);
@@ -189,7 +189,7 @@ public final class LetterAuction {
         return k >= 0 && k < now.told ? now.word[k] : NONE;
     }
 
-    public boolean accepts(int machine) {
+    public boolean accepts(int machine) throws IndexOutOfBoundsException {
         checkMachine(machine);
         return now.isWordAccepted(plan, machine);
     }
@@ -198,23 +198,23 @@ public final class LetterAuction {
         return now.isEveryGoalReached(plan);
     }
 
-    public long words(int machines, int length) {
+    public long words(int machines, int length) throws IndexOutOfBoundsException, IllegalArgumentException {
         checkSet(machines);
         checkArgument(length, 0, MAX_COUNTED_LENGTH);
         return search.count(plan, machines, length);
     }
 
-    public int shortest(int machines) {
+    public int shortest(int machines) throws IndexOutOfBoundsException {
         checkSet(machines);
         return search.lengthTogether(plan, machines);
     }
 
-    public int shortestLetter(int machines, int k) {
+    public int shortestLetter(int machines, int k) throws IndexOutOfBoundsException {
         checkSet(machines);
         return search.letterTogether(plan, machines, k);
     }
 
-    public int differs(int machine, int other) {
+    public int differs(int machine, int other) throws IndexOutOfBoundsException {
         checkMachine(machine);
         checkMachine(other);
         return machine == other ? NONE : search.lengthApart(plan, 1 << machine | 1 << other);
@@ -222,26 +222,26 @@ public final class LetterAuction {
 
     // ---- log and accounts
 
-    public int log(int k, int part) {
+    public int log(int k, int part) throws IllegalArgumentException {
         checkArgument(part, 0, LOG_PARTS - 1);
         return now.entryPart(k, part);
     }
 
-    public int account(int what) {
+    public int account(int what) throws IllegalArgumentException {
         checkArgument(what, 0, ACCOUNTS - 1);
         return now.accounts[what];
     }
 
     // ---- changes
 
-    public int play(int rounds) {
+    public int play(int rounds) throws IllegalArgumentException, IllegalStateException {
         checkArgument(rounds, 1, MAX_ROUNDS);
         checkPossible(!now.isFull());
         past.keep(now);
         return bids.playRounds(plan, now, rounds);
     }
 
-    public int buy(int machine, int letter) {
+    public int buy(int machine, int letter) throws IndexOutOfBoundsException, IllegalStateException {
         checkMachine(machine);
         checkLetter(letter);
         checkPossible(!now.isFull() && now.canGo(plan, machine, letter) && now.coins[machine] >= now.weight[machine]);
@@ -253,7 +253,7 @@ public final class LetterAuction {
         return now.told;
     }
 
-    public int reset(int machine) {
+    public int reset(int machine) throws IndexOutOfBoundsException, IllegalStateException {
         checkMachine(machine);
         int cost = 2 * plan.turnPrice;
         checkPossible(now.coins[machine] >= cost);
@@ -262,7 +262,8 @@ public final class LetterAuction {
         return now.coins[machine];
     }
 
-    public int give(int machine, int other, int coins) {
+    public int give(int machine, int other, int coins)
+            throws IndexOutOfBoundsException, IllegalArgumentException, IllegalStateException {
         checkMachine(machine);
         checkMachine(other);
         checkArgument(coins, 0, MAX_COINS);
@@ -273,7 +274,7 @@ public final class LetterAuction {
         return now.coins[other];
     }
 
-    public int setWeight(int machine, int weight) {
+    public int setWeight(int machine, int weight) throws IndexOutOfBoundsException, IllegalArgumentException {
         checkMachine(machine);
         checkArgument(weight, 1, MAX_WEIGHT);
         past.keep(now);
@@ -288,12 +289,12 @@ public final class LetterAuction {
         return past.takeBack(now);
     }
 
-    public boolean saveSnapshot(int slot) {
+    public boolean saveSnapshot(int slot) throws IndexOutOfBoundsException {
         checkSlot(slot);
         return past.save(slot, now);
     }
 
-    public int restoreSnapshot(int slot) {
+    public int restoreSnapshot(int slot) throws IndexOutOfBoundsException, IllegalStateException {
         checkSlot(slot);
         checkPossible(past.isSaved(slot));
         past.load(slot, now);
@@ -525,7 +526,7 @@ public final class LetterAuction {
             next = 0;
             plan.clear();
             tokens.find(bytes, length);
-            if (!isNextKeyword("letters")) {
+            if (!isKeyword(next, "letters")) {
                 return fail(BAD_TOKEN, next);
             }
             next++;
@@ -541,22 +542,32 @@ public final class LetterAuction {
         }
 
         private boolean readStatement(Plan plan) {
-            if (isNextKeyword("machine")) {
+            int keyword = next;
+            if (isKeyword(keyword, "machine")) {
                 return readMachine(plan);
             }
-            if (isNextKeyword("go")) {
-                return readGo(plan);
-            }
-            if (isNextKeyword("accept")) {
-                return readAccept(plan);
-            }
-            if (isNextKeyword("tire")) {
-                return readTire(plan);
-            }
-            if (isNextKeyword("turn")) {
+            if (isKeyword(keyword, "turn")) {
                 return readTurn(plan);
             }
-            return fail(BAD_TOKEN, next);
+            boolean isGo = isKeyword(keyword, "go");
+            boolean isAccept = isKeyword(keyword, "accept");
+            if (!isGo && !isAccept && !isKeyword(keyword, "tire")) {
+                return fail(BAD_TOKEN, keyword);
+            }
+            next++;
+            // All three tell something of a state of a machine.
+            if (!takeMachine(plan)) {
+                return false;
+            }
+            int machine = taken;
+            if (!takeNumber(0, plan.states[machine] - 1)) {
+                return false;
+            }
+            int state = taken;
+            if (isGo) {
+                return readGo(plan, machine, state);
+            }
+            return isAccept ? readAccept(plan, machine, state) : readTire(plan, machine, state);
         }
 
         private boolean readMachine(Plan plan) {
@@ -580,7 +591,7 @@ public final class LetterAuction {
                 return false;
             }
             plan.states[machine] = taken;
-            if (isNextKeyword("listens")) {
+            if (isKeyword(next, "listens")) {
                 plan.listeners |= 1 << machine;
                 next++;
             }
@@ -588,56 +599,31 @@ public final class LetterAuction {
             return true;
         }
 
-        private boolean readGo(Plan plan) {
-            next++;
-            if (!takeMachine(plan)) {
-                return false;
-            }
-            int machine = taken;
-            if (!takeNumber(0, plan.states[machine] - 1)) {
-                return false;
-            }
-            int from = taken;
+        private boolean readGo(Plan plan, int machine, int state) {
             if (!takeLetter(plan)) {
                 return false;
             }
             int letter = taken;
-            if (plan.target(machine, from, letter) != NONE) {
+            if (plan.target(machine, state, letter) != NONE) {
                 return fail(REPEATED, next - 1);
             }
             if (!takeNumber(0, plan.states[machine] - 1)) {
                 return false;
             }
-            plan.setTarget(machine, from, letter, taken);
+            plan.setTarget(machine, state, letter, taken);
             return true;
         }
 
-        private boolean readAccept(Plan plan) {
-            next++;
-            if (!takeMachine(plan)) {
-                return false;
-            }
-            int machine = taken;
-            if (!takeNumber(0, plan.states[machine] - 1)) {
-                return false;
-            }
-            if (plan.isGoal(machine, taken)) {
+        private boolean readAccept(Plan plan, int machine, int state) {
+            if (plan.isGoal(machine, state)) {
                 return fail(REPEATED, next - 1);
             }
-            plan.goals[machine] |= 1 << taken;
+            plan.goals[machine] |= 1 << state;
             return true;
         }
 
-        private boolean readTire(Plan plan) {
-            next++;
-            if (!takeMachine(plan)) {
-                return false;
-            }
-            int machine = taken;
-            if (!takeNumber(0, plan.states[machine] - 1)) {
-                return false;
-            }
-            int cell = machine * MAX_STATES + taken;
+        private boolean readTire(Plan plan, int machine, int state) {
+            int cell = machine * MAX_STATES + state;
             if (plan.times[cell] != NONE) {
                 return fail(REPEATED, next - 1);
             }
@@ -741,8 +727,8 @@ public final class LetterAuction {
             return NONE;
         }
 
-        private boolean isNextKeyword(String keyword) {
-            return tokens.kind(next) == Tokens.WORD && tokens.value(next) == Tokens.packed(keyword);
+        private boolean isKeyword(int token, String keyword) {
+            return tokens.kind(token) == Tokens.WORD && tokens.value(token) == Tokens.packed(keyword);
         }
     }
 

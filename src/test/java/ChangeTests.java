@@ -165,6 +165,12 @@ final class ChangeTests {
         x.give(1, 2, 3);
         Check.raisesState("reset with a coin too few", () -> x.reset(2));
         Check.same("changes", 6, x.size(8));
+        LetterAuction dear = Check.of("letters 1;machine x 101 1 1;machine y 199 1 1;machine z 198 1 1;turn 1 99;");
+        Check.raisesState("two of three coins", () -> dear.reset(0));
+        Check.same("twice 99", 1, dear.reset(1));
+        Check.same("just twice 99", 0, dear.reset(2));
+        LetterAuction free = Check.of("letters 1;machine x 0 1 1;turn 1 0;");
+        Check.same("twice 0", 0, free.reset(0));
     }
 
     private static void give() {
@@ -279,6 +285,20 @@ final class ChangeTests {
         Check.yes("saveSnapshot(0) in place of an earlier one", x.saveSnapshot(0));
         x.play(1);
         Check.same("the later one", 1, x.restoreSnapshot(0));
+        // Another word of the same length must not stay.
+        LetterAuction y = Check.of("letters 2;machine x 50 1 1;go x 0 a 0;go x 0 b 0;accept x 0;");
+        y.buy(0, 1);
+        y.buy(0, 0);
+        y.saveSnapshot(0);
+        y.undo();
+        y.undo();
+        y.buy(0, 0);
+        y.buy(0, 1);
+        y.buy(0, 1);
+        Check.same("the word of the snapshot", 2, y.restoreSnapshot(0));
+        Check.same("its letter 0", 1, y.letter(0));
+        Check.same("its letter 1", 0, y.letter(1));
+        Check.same("its end", -1, y.letter(2));
     }
 
     private static void coinsAreKept() {

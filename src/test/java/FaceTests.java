@@ -8,13 +8,16 @@ import java.util.TreeSet;
 
 /** The face of the class is that of the document, and nothing else (LANGUAGE.md, rules 1 and 5). */
 final class FaceTests {
-    private static final String FACE = "int append(int,int,int,int,int)|int parse(int)|int errorPosition()|int size(int)|"
-        + "int machine(int,int)|int strength(int,int)|boolean isAccepting(int,int)|int goes(int,int,int)|"
-        + "int distance(int,int)|int whyNotBid(int,int)|int bidLetter(int)|int bid(int)|int sum(int)|int winner()|"
-        + "int price()|int pays(int)|int coinsAfter(int,int)|int letter(int)|boolean accepts(int)|boolean isAgreed()|"
-        + "long words(int,int)|int shortest(int)|int shortestLetter(int,int)|int differs(int,int)|int log(int,int)|"
-        + "int account(int)|int play(int)|int buy(int,int)|int reset(int)|int give(int,int,int)|int setWeight(int,int)|"
-        + "int undo()|boolean saveSnapshot(int)|int restoreSnapshot(int)";
+    // Behind the parameters the exceptions: I IndexOutOfBounds, A IllegalArgument, S IllegalState.
+    private static final String FACE = "int append(int,int,int,int,int)|int parse(int) A|int errorPosition()|int size(int) A|"
+        + "int machine(int,int) IA|int strength(int,int) I|boolean isAccepting(int,int) I|"
+        + "int goes(int,int,int) I|int distance(int,int) I|int whyNotBid(int,int) I|int bidLetter(int) I|"
+        + "int bid(int) I|int sum(int) I|int winner()|int price()|int pays(int) I|"
+        + "int coinsAfter(int,int) IA|int letter(int)|boolean accepts(int) I|boolean isAgreed()|"
+        + "long words(int,int) IA|int shortest(int) I|int shortestLetter(int,int) I|int differs(int,int) I|"
+        + "int log(int,int) A|int account(int) A|int play(int) AS|int buy(int,int) IS|int reset(int) IS|"
+        + "int give(int,int,int) IAS|int setWeight(int,int) IA|int undo()|boolean saveSnapshot(int) I|"
+        + "int restoreSnapshot(int) IS";
 
     private FaceTests() {
     }
@@ -55,7 +58,12 @@ final class FaceTests {
         for (int i = 0; i < parameters.length; i++) {
             all.append(i > 0 ? "," : "").append(parameters[i].getName());
         }
-        return all.append(')').toString();
+        all.append(')');
+        Class<?>[] exceptions = method.getExceptionTypes();
+        for (int i = 0; i < exceptions.length; i++) {
+            all.append(i == 0 ? " " : "").append(exceptions[i].getSimpleName().replace("Illegal", "").charAt(0));
+        }
+        return all.toString();
     }
 
     private static void noPublicNames(Class<?> inside, Set<String> names) {

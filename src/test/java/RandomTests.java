@@ -162,7 +162,8 @@ final class RandomTests {
                 }
             }
         }
-        same("coins after the call", () -> pictureOf(x::size, x::machine), () -> pictureOf(y::size, y::machine));
+        same("all after the call", () -> pictureOf(x::size, x::machine, x::strength, x::letter, x::account),
+            () -> pictureOf(y::size, y::machine, y::strength, y::letter, y::account));
     }
 
     private interface One {
@@ -173,7 +174,7 @@ final class RandomTests {
         int of(int a, int b);
     }
 
-    private static String pictureOf(One size, Two machine) {
+    private static String pictureOf(One size, Two machine, Two strength, One letter, One account) {
         StringBuilder all = new StringBuilder();
         for (int what = 0; what <= 8; what++) {
             all.append(size.of(what)).append(' ');
@@ -182,6 +183,15 @@ final class RandomTests {
             for (int what = 0; what <= 6; what++) {
                 all.append(machine.of(m, what)).append(' ');
             }
+            for (int state = 0; state < machine.of(m, 3); state++) {
+                all.append(strength.of(m, state)).append(' ');
+            }
+        }
+        for (int k = 0; k < size.of(2); k++) {
+            all.append(letter.of(k)).append(' ');
+        }
+        for (int what = 0; what <= 5; what++) {
+            all.append(account.of(what)).append(' ');
         }
         return all.toString();
     }

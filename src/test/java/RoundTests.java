@@ -5,6 +5,7 @@ final class RoundTests {
 
     static void run() {
         bids();
+        eachAloneAsFirstCall();
         sums();
         ties();
         paymentsAreShared();
@@ -40,6 +41,20 @@ final class RoundTests {
         x.pays(0);
         x.coinsAfter(0, 20);
         Check.same("nothing changes", before, Check.picture(x));
+    }
+
+    /** None of these may rely on another call to have looked at the bids. */
+    private static void eachAloneAsFirstCall() {
+        String text = "letters 2;machine x 20 1 2;machine y 20 2 2;go x 0 a 1;accept x 1;go y 0 b 1;accept y 1;";
+        Check.same("bidLetter", 1, Check.of(text).bidLetter(1));
+        Check.same("bid", 14, Check.of(text).bid(1));
+        Check.same("sum", 14, Check.of(text).sum(1));
+        Check.same("winner", 1, Check.of(text).winner());
+        Check.same("price", 7, Check.of(text).price());
+        Check.same("pays", 7, Check.of(text).pays(1));
+        Check.same("coinsAfter", 13, Check.of(text).coinsAfter(1, 1));
+        Check.same("whyNotBid", 0, Check.of(text).whyNotBid(1, 1));
+        Check.same("distance", 1, Check.of(text).distance(1, 0));
     }
 
     private static void sums() {

@@ -156,6 +156,12 @@ final class TextTests {
         fails(HEAD + "turn 1 a", 1, HEAD.length() + 7);
         fails(HEAD + "turn 1;", 1, HEAD.length() + 6);
         fails(HEAD + "turn 1 1", 1, HEAD.length() + 8);
+        // A semicolon that comes too early is not the end of the statement.
+        String[] cut = {"machine", "machine b", "machine b 1", "machine b 1 1", "go", "go a", "go a 0", "go a 0 a", "accept",
+            "accept a", "tire", "tire a", "tire a 0", "turn", "turn 1", ""};
+        for (String part : cut) {
+            fails(HEAD + part + ";", 1, HEAD.length() + part.length());
+        }
     }
 
     private static void repeated() {
@@ -281,9 +287,14 @@ final class TextTests {
     }
 
     private static void fails(String text, int code, int position) {
-        LetterAuction x = new LetterAuction();
+        LetterAuction x = Check.of("letters 3;machine a 5 2 3 listens;go a 0 c 1;go a 1 c 2;accept a 2;tire a 2 9;turn 7 77;");
+        x.play(2);
+        x.saveSnapshot(0);
+        String before = Check.picture(x);
         Check.same("parse of " + text, code, Check.parse(x, text));
         Check.same("position of " + text, position, x.errorPosition());
+        Check.same("picture after parse of " + text, before, Check.picture(x));
+        Check.same("slot after parse of " + text, 2, x.restoreSnapshot(0));
     }
 
     private static void passes(String text) {

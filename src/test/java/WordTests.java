@@ -16,6 +16,7 @@ final class WordTests {
         words();
         shortest();
         longShortest();
+        mostStatesTogether();
         firstInAlphabet();
         differs();
     }
@@ -81,6 +82,8 @@ final class WordTests {
         x.reset(1);
         Check.no("their states count", x.isAgreed());
         Check.yes("not the word", x.accepts(1));
+        Check.no("the first alone does not accept", Check.of("letters 1;machine x 1 1 1;machine y 1 1 1;accept y 0;").isAgreed());
+        Check.no("the last alone does not accept", Check.of("letters 1;machine x 1 1 1;machine y 1 1 1;accept x 0;").isAgreed());
         Check.yes("a state that accepts at first", Check.of("letters 1;machine x 1 1 1;accept x 0;").isAgreed());
     }
 
@@ -168,6 +171,47 @@ final class WordTests {
         Check.same("rings of 5 and 3", 14, x.shortest(10));
         Check.same("rings of 6 and 4", 11, x.shortest(5));
         Check.same("rings of 6 and 4 differ", 3, x.differs(0, 2));
+    }
+
+    /** Four machines of six states, which come to all 1296 states together; the accepting one is the last of them. */
+    private static void mostStatesTogether() {
+        String[] targets = {"450213", "521430", "013425", "324510", "352410", "531420", "125034", "204153"};
+        String accepting = "0515";
+        StringBuilder text = new StringBuilder("letters2;");
+        for (int m = 0; m < 4; m++) {
+            text.append("machine ").append("pqrs".charAt(m)).append("1 1 6;");
+        }
+        for (int m = 0; m < 4; m++) {
+            for (int state = 0; state < 6; state++) {
+                for (int letter = 0; letter < 2; letter++) {
+                    text.append("go ").append("pqrs".charAt(m)).append(state).append("ab".charAt(letter));
+                    text.append(targets[m * 2 + letter].charAt(state)).append(';');
+                }
+            }
+            text.append("accept ").append("pqrs".charAt(m)).append(accepting.charAt(m)).append(';');
+        }
+        LetterAuction x = Check.of(text.toString());
+        NaiveAuction y = new NaiveAuction();
+        StringBuilder padded = new StringBuilder(text);
+        while (padded.length() % 20 != 0) {
+            padded.append(' ');
+        }
+        for (int at = 0; at < padded.length(); at += 20) {
+            y.append(padded.substring(at, at + 20));
+        }
+        Check.same("the naive one parses it", 0, y.parse(text.length()));
+        Check.same("the farthest state", 18, x.shortest(15));
+        for (int k = 0; k <= 18; k++) {
+            Check.same("letter " + k + " on the way to it", y.shortestLetter(15, k), x.shortestLetter(15, k));
+        }
+        for (int length = 0; length <= 20; length++) {
+            for (int set = 0; set <= 15; set++) {
+                Check.same("words(" + set + ", " + length + ")", y.words(set, length), x.words(set, length));
+            }
+        }
+        for (int pair = 0; pair < 16; pair++) {
+            Check.same("differs of pair " + pair, y.differs(pair / 4, pair % 4), x.differs(pair / 4, pair % 4));
+        }
     }
 
     private static void firstInAlphabet() {
