@@ -10,6 +10,15 @@ public final class AllTests {
         RoundTests.run();
         WordTests.run();
         ChangeTests.run();
+        TextBoundaries.run();
+        MachineBoundaries.run();
+        RoundBoundaries.run();
+        WordBoundaries.run();
+        LogBoundaries.run();
+        ChangeBoundaries.run();
+        RefusalBoundaries.run();
+        GridTests.run();
+        Sentences.compare();
         RoomTests.run();
         RandomTests.run();
         System.out.println(Check.made + " answers, " + Check.wrong + " wrong");

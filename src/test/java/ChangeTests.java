@@ -133,9 +133,9 @@ final class ChangeTests {
         Check.same("a throw is no change", 1, x.size(8));
         x.buy(0, 0);
         x.buy(0, 0);
-        String before = Check.picture(x);
+        String before = Whole.now(x);
         Check.raisesState("a tired state", () -> x.buy(0, 0));
-        Check.same("a throw changes nothing", before, Check.picture(x));
+        Check.same("a throw changes nothing", before, Whole.now(x));
         LetterAuction full = Check.of("letters 1;machine x 9 1 1;go x 0 a 0;accept x 0;");
         full.play(20);
         full.play(20);
@@ -232,22 +232,22 @@ final class ChangeTests {
         LetterAuction x = Check.of(TEXT);
         x.play(1);
         String[] before = new String[6];
-        before[0] = Check.picture(x);
+        before[0] = Whole.now(x);
         x.play(4);
-        before[1] = Check.picture(x);
+        before[1] = Whole.now(x);
         x.buy(1, 0);
-        before[2] = Check.picture(x);
+        before[2] = Whole.now(x);
         x.reset(0);
-        before[3] = Check.picture(x);
+        before[3] = Whole.now(x);
         x.give(0, 1, 2);
-        before[4] = Check.picture(x);
+        before[4] = Whole.now(x);
         x.setWeight(1, 9);
         for (int i = 4; i >= 0; i--) {
             Check.same("undo leaves", i + 1, x.undo());
-            Check.same("undo " + i, before[i], Check.picture(x));
+            Check.same("undo " + i, before[i], Whole.now(x));
         }
         Check.same("undo of the first", 0, x.undo());
-        Check.same("as new", Check.picture(Check.of(TEXT)), Check.picture(x));
+        Check.same("as new", Whole.now(Check.of(TEXT)), Whole.now(x));
     }
 
     private static void snapshots() {
@@ -262,7 +262,7 @@ final class ChangeTests {
         Check.same("saving is no change", 1, x.size(8));
         Check.raisesState("slot 1 is empty", () -> x.restoreSnapshot(1));
         x.undo();
-        String atFirst = Check.picture(x);
+        String atFirst = Whole.now(x);
         Check.no("saveSnapshot(1)", x.saveSnapshot(1));
         Check.yes("saveSnapshot(1) again", x.saveSnapshot(1));
         x.play(5);
@@ -275,12 +275,12 @@ final class ChangeTests {
         Check.same("nothing to undo", 0, x.size(8));
         Check.same("undo", -1, x.undo());
         x.give(0, 0, 0);
-        Check.same("all as after two rounds", Check.picture(two), Check.picture(x));
+        Check.same("all as after two rounds", Whole.now(two), Whole.now(x));
         Check.same("restoreSnapshot(1)", 0, x.restoreSnapshot(1));
-        Check.same("all as at first", atFirst, Check.picture(x));
+        Check.same("all as at first", atFirst, Whole.now(x));
         x.play(3);
         Check.same("the slot stays stored", 0, x.restoreSnapshot(1));
-        Check.same("and is not what was played", atFirst, Check.picture(x));
+        Check.same("and is not what was played", atFirst, Whole.now(x));
         x.play(1);
         Check.yes("saveSnapshot(0) in place of an earlier one", x.saveSnapshot(0));
         x.play(1);

@@ -1,3 +1,5 @@
+import java.util.function.IntConsumer;
+
 /** What the tests share: comparing an answer with the one that is due, and putting a text into the buffer. */
 final class Check {
     static int made = 0;
@@ -16,8 +18,22 @@ final class Check {
     static void same(String call, String due, String got) {
         made++;
         if (!got.equals(due)) {
-            report(call + " answered " + got + ", due is " + due);
+            // Of long answers only what stands round the first difference.
+            int from = Math.max(0, firstDifference(due, got) - 60);
+            report(call + " answered .." + part(got, from) + ".., due is .." + part(due, from) + "..");
         }
+    }
+
+    private static int firstDifference(String one, String other) {
+        int at = 0;
+        while (at < one.length() && at < other.length() && one.charAt(at) == other.charAt(at)) {
+            at++;
+        }
+        return at;
+    }
+
+    private static String part(String text, int from) {
+        return text.substring(Math.min(from, text.length()), Math.min(from + 120, text.length()));
     }
 
     static void yes(String call, boolean got) {
@@ -45,6 +61,21 @@ final class Check {
         raises(call, IllegalStateException.class, runnable);
     }
 
+    /** The call must be refused just outside of the range, and with the least and the greatest numbers that there are. */
+    static void outside(String call, Class<? extends RuntimeException> due, int least, int most, IntConsumer called) {
+        for (int argument : new int[] {least - 1, most + 1, Integer.MIN_VALUE, Integer.MAX_VALUE}) {
+            raises(call + " with " + argument, due, () -> called.accept(argument));
+        }
+    }
+
+    static void outsideIndex(String call, int least, int most, IntConsumer called) {
+        outside(call, IndexOutOfBoundsException.class, least, most, called);
+    }
+
+    static void outsideArgument(String call, int least, int most, IntConsumer called) {
+        outside(call, IllegalArgumentException.class, least, most, called);
+    }
+
     private static String outcome(Runnable runnable) {
         try {
             runnable.run();
@@ -57,7 +88,7 @@ final class Check {
     private static void report(String text) {
         wrong++;
         if (wrong <= 40) {
-            System.out.println(text);
+            System.out.println(Sentences.heading() + text);
         }
     }
 
@@ -85,33 +116,5 @@ final class Check {
         LetterAuction x = new LetterAuction();
         same("parse of " + text, 0, parse(x, text));
         return x;
-    }
-
-    /** All that an auction answers about itself without an argument that is free. */
-    static String picture(LetterAuction x) {
-        StringBuilder all = new StringBuilder();
-        for (int what = 0; what <= 8; what++) {
-            all.append(x.size(what)).append(' ');
-        }
-        for (int machine = 0; machine < x.size(0); machine++) {
-            for (int what = 0; what <= 6; what++) {
-                all.append(x.machine(machine, what)).append(' ');
-            }
-            for (int state = 0; state < x.machine(machine, 3); state++) {
-                all.append(x.strength(machine, state)).append(' ');
-            }
-        }
-        for (int k = 0; k <= 60; k++) {
-            all.append(x.letter(k)).append(' ');
-        }
-        for (int k = 0; k <= 20; k++) {
-            for (int part = 0; part < 4; part++) {
-                all.append(x.log(k, part)).append(' ');
-            }
-        }
-        for (int what = 0; what <= 5; what++) {
-            all.append(x.account(what)).append(' ');
-        }
-        return all.toString();
     }
 }

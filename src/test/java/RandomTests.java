@@ -17,7 +17,7 @@ final class RandomTests {
     }
 
     static void run() {
-        for (int run = 1; run <= 400; run++) {
+        for (int run = 1; run <= 1500; run++) {
             new RandomTests(run).oneRun();
         }
     }
@@ -35,7 +35,8 @@ final class RandomTests {
         if (run % 20 != 0) {
             parse(text());
         }
-        while (calls < 500) {
+        // Looking at all in the end takes calls, too, and no object is asked more than 512 times.
+        while (calls < 330) {
             if (below(60) == 0) {
                 String text = text();
                 parse(below(4) == 0 ? text : spoilt(text));
@@ -45,6 +46,8 @@ final class RandomTests {
                 query(below(28));
             }
         }
+        same("all in the end", () -> pictureOf(x::size, x::machine, x::strength, x::letter, x::account),
+            () -> pictureOf(y::size, y::machine, y::strength, y::letter, y::account));
     }
 
     private void parse(String text) {
@@ -162,32 +165,33 @@ final class RandomTests {
                 }
             }
         }
-        same("all after the call", () -> pictureOf(x::size, x::machine, x::strength, x::letter, x::account),
-            () -> pictureOf(y::size, y::machine, y::strength, y::letter, y::account));
     }
 
-    private interface One {
+    interface One {
         int of(int a);
     }
 
-    private interface Two {
+    interface Two {
         int of(int a, int b);
     }
 
-    private static String pictureOf(One size, Two machine, Two strength, One letter, One account) {
+    static String pictureOf(One size, Two machine, Two strength, One letter, One account) {
         StringBuilder all = new StringBuilder();
         for (int what = 0; what <= 8; what++) {
             all.append(size.of(what)).append(' ');
         }
-        for (int m = 0; m < size.of(0); m++) {
+        int machines = size.of(0);
+        for (int m = 0; m < machines; m++) {
             for (int what = 0; what <= 6; what++) {
                 all.append(machine.of(m, what)).append(' ');
             }
-            for (int state = 0; state < machine.of(m, 3); state++) {
+            int states = machine.of(m, 3);
+            for (int state = 0; state < states; state++) {
                 all.append(strength.of(m, state)).append(' ');
             }
         }
-        for (int k = 0; k < size.of(2); k++) {
+        int letters = size.of(2);
+        for (int k = 0; k < letters; k++) {
             all.append(letter.of(k)).append(' ');
         }
         for (int what = 0; what <= 5; what++) {
@@ -242,7 +246,7 @@ final class RandomTests {
         Check.same("random run " + run + ", call " + calls + ": " + call, outcome(due), outcome(got));
     }
 
-    private static String outcome(Supplier<Object> call) {
+    static String outcome(Supplier<Object> call) {
         try {
             return String.valueOf(call.get());
         } catch (RuntimeException e) {

@@ -35,12 +35,12 @@ final class RoundTests {
         Check.raisesIndex("bidLetter(-1)", () -> x.bidLetter(-1));
         Check.raisesIndex("bid(4)", () -> x.bid(4));
         Check.raisesIndex("bid(-1)", () -> x.bid(-1));
-        String before = Check.picture(x);
+        String before = Whole.now(x);
         x.winner();
         x.price();
         x.pays(0);
         x.coinsAfter(0, 20);
-        Check.same("nothing changes", before, Check.picture(x));
+        Check.same("nothing changes", before, Whole.now(x));
     }
 
     /** None of these may rely on another call to have looked at the bids. */
@@ -128,14 +128,14 @@ final class RoundTests {
         String text = "letters 2;machine x 30 1 2 listens;machine y 17 1 2;go x 0 a 1;go x 1 b 0;accept x 1;"
             + "go y 0 a 0;go y 0 b 0;accept y 0;tire y 0 5;turn 3 4;";
         LetterAuction x = Check.of(text);
-        String before = Check.picture(x);
+        String before = Whole.now(x);
         for (int rounds = 1; rounds <= 20; rounds++) {
             LetterAuction played = Check.of(text);
             played.play(rounds);
             Check.same("coinsAfter(0, " + rounds + ")", played.machine(0, 1), x.coinsAfter(0, rounds));
             Check.same("coinsAfter(1, " + rounds + ")", played.machine(1, 1), x.coinsAfter(1, rounds));
         }
-        Check.same("coinsAfter changes nothing", before, Check.picture(x));
+        Check.same("coinsAfter changes nothing", before, Whole.now(x));
         Check.raisesArgument("coinsAfter(0, 0)", () -> x.coinsAfter(0, 0));
         Check.raisesArgument("coinsAfter(0, 21)", () -> x.coinsAfter(0, 21));
         Check.raisesIndex("coinsAfter(2, 0): the machine is checked first", () -> x.coinsAfter(2, 0));

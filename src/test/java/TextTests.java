@@ -110,7 +110,7 @@ final class TextTests {
         Check.same("undo after parse", -1, x.undo());
         Check.raisesState("slot 0 after parse", () -> x.restoreSnapshot(0));
         Check.raisesState("slot 1 after parse", () -> x.restoreSnapshot(1));
-        Check.same("parsed again: all as if new", Check.picture(Check.of(HEAD)), Check.picture(x));
+        Check.same("parsed again: all as if new", Whole.now(Check.of(HEAD)), Whole.now(x));
         Check.same("no goes", -1, x.goes(0, 0, 1));
         Check.no("no accepts", x.isAccepting(0, 1));
         Check.same("no listeners", 0, x.machine(0, 4));
@@ -264,9 +264,9 @@ final class TextTests {
         x.play(2);
         x.saveSnapshot(1);
         x.setWeight(0, 3);
-        String before = Check.picture(x);
+        String before = Whole.now(x);
         Check.same("a failing parse", 3, Check.parse(x, "letters 1;machine b 0 1 1;go b 0 a 0;accept b 0;turn 0 0;"));
-        Check.same("picture after a failing parse", before, Check.picture(x));
+        Check.same("picture after a failing parse", before, Whole.now(x));
         Check.same("goes after a failing parse", 1, x.goes(0, 0, 1));
         Check.same("undo after a failing parse", 1, x.undo());
         Check.same("slot after a failing parse", 2, x.restoreSnapshot(1));
@@ -290,10 +290,10 @@ final class TextTests {
         LetterAuction x = Check.of("letters 3;machine a 5 2 3 listens;go a 0 c 1;go a 1 c 2;accept a 2;tire a 2 9;turn 7 77;");
         x.play(2);
         x.saveSnapshot(0);
-        String before = Check.picture(x);
+        String before = Whole.now(x);
         Check.same("parse of " + text, code, Check.parse(x, text));
         Check.same("position of " + text, position, x.errorPosition());
-        Check.same("picture after parse of " + text, before, Check.picture(x));
+        Check.same("picture after parse of " + text, before, Whole.now(x));
         Check.same("slot after parse of " + text, 2, x.restoreSnapshot(0));
     }
 
