@@ -14,6 +14,7 @@ final class ChangeBoundaries {
         latestTen();
         twoSlots();
         snapshotHoldsEverything();
+        snapshotHoldsTheMost();
         parseClears();
         buyForWeight();
         buyOfLastLetter();
@@ -25,6 +26,7 @@ final class ChangeBoundaries {
         giveThrows();
         setWeight();
         undo();
+        undoOfTheMost();
         saveSnapshot();
         restoreSnapshot();
     }
@@ -162,6 +164,45 @@ final class ChangeBoundaries {
         x.restoreSnapshot(1);
         x.restoreSnapshot(0);
         Check.same("after an earlier one", before, Whole.now(x));
+    }
+
+    /** An auction of the greatest size, and more entries in the log than are kept. */
+    private static void snapshotHoldsTheMost() {
+        Sentences.about(35, "CHANGES", "a snapshot holds everything that changes can change.");
+        String way = "acbdbdccb".repeat(5);
+        LetterAuction x = Recipes.large();
+        String first = Whole.now(x);
+        x.saveSnapshot(0);
+        Recipes.go(x, way);
+        x.play(3);
+        x.give(3, 0, 20);
+        x.setWeight(3, 7);
+        x.saveSnapshot(1);
+        x.restoreSnapshot(1);
+        String second = Whole.now(x);
+        Check.same("letters", 48, x.size(2));
+        // Other letters and entries come to the places of the first ones.
+        x.restoreSnapshot(0);
+        Recipes.go(x, "dbab".repeat(15).substring(0, 47));
+        x.restoreSnapshot(1);
+        Check.same("the later one", second, Whole.now(x));
+        x.restoreSnapshot(0);
+        Check.same("the earlier one", first, Whole.now(x));
+    }
+
+    /** The history holds as much as a snapshot. */
+    private static void undoOfTheMost() {
+        Sentences.about(33, "Undoes the latest change that has not been undone.");
+        LetterAuction x = Recipes.large();
+        Recipes.go(x, "acbdbdccb".repeat(5));
+        x.saveSnapshot(0);
+        x.restoreSnapshot(0);
+        String before = Whole.now(x);
+        x.play(15);
+        Check.same("the word is full", 60, x.size(2));
+        Check.same("the log holds the rounds", 0, x.log(14, 3));
+        x.undo();
+        Check.same("all as before", before, Whole.now(x));
     }
 
     private static void changeAll(LetterAuction x) {

@@ -11,6 +11,7 @@ final class MachineBoundaries {
         entering();
         tiredStates();
         distanceOfChain();
+        distanceByLastLetter();
         distanceWithTiredStates();
         size();
         sizeOfWordAndChanges();
@@ -113,6 +114,25 @@ final class MachineBoundaries {
         Sentences.about(10, "MACHINES", "there may be none.");
         Check.same("a ring without a state that accepts", -1,
             Check.of("letters 1;machine p 1 1 2;go p 0 a 1;go p 1 a 0;machine q 1 1 2;accept q 1;").distance(0, 0));
+    }
+
+    /** Behind the last letter of a state nothing comes, not even the first letter of the next state. */
+    private static void distanceByLastLetter() {
+        Sentences.about(10, "Returns the distance");
+        LetterAuction x = Check.of("letters 4;machine p 9 1 6;machine q 9 1 6;machine r 9 1 6;machine s 9 1 6;go p 1 a 2;accept p 2;"
+            + "go q 0 d 5;go q 1 a 0;accept q 5;go s 4 d 5;go s 5 d 4;accept s 0;go r 5 a 5;accept r 5;");
+        distances(x, -1, 1, 0, -1, -1, -1);
+        Check.same("by the last letter", 1, x.distance(1, 0));
+        Check.same("by the first letter to it", 2, x.distance(1, 1));
+        Check.same("the last state of the last machine", -1, x.distance(3, 5));
+        Check.same("the state before it", -1, x.distance(3, 4));
+        int[] letters = {-1, 3, -1, -1};
+        for (int machine = 0; machine < 4; machine++) {
+            Check.same("bidLetter(" + machine + ")", letters[machine], x.bidLetter(machine));
+            for (int letter = 0; letter < 4; letter++) {
+                Check.same("whyNotBid(" + machine + ", " + letter + ")", letter == letters[machine] ? 0 : 1, x.whyNotBid(machine, letter));
+            }
+        }
     }
 
     private static void distanceWithTiredStates() {

@@ -50,6 +50,23 @@ final class Recipes {
         return x;
     }
 
+    /** Four machines of six states, all of which tire, go together by each letter that one of them buys. */
+    static LetterAuction large() {
+        StringBuilder text = new StringBuilder("letters 4;turn 7 5;");
+        for (String name : new String[] {"p", "q", "r", "s"}) {
+            text.append("machine ").append(name).append(" 99 1 6 listens;");
+            text.append("go . 0 a 5;go . 5 b 0;go . 0 d 5;go . 5 c 5;accept . 5;tire . 0 98;tire . 5 99;".replace(".", name));
+        }
+        return of(text.toString());
+    }
+
+    /** Has each machine of a large one in turn buy the next letter of a way. */
+    static void go(LetterAuction large, String way) {
+        for (int n = 0; n < way.length(); n++) {
+            large.buy(n % 4, way.charAt(n) - 'a');
+        }
+    }
+
     private static LetterAuction of(String text) {
         LetterAuction x = new LetterAuction();
         if (Check.parse(x, text) != 0) {

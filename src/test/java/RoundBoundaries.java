@@ -118,6 +118,7 @@ final class RoundBoundaries {
         Check.same("the letter in the log", -1, x.log(0, 0));
         x.give(1, 0, 1);
         Check.same("one bids a coin", 1, x.play(1));
+        Check.same("it goes", 1, x.machine(0, 5));
         Check.same("letters", 1, x.size(2));
         Check.same("silent rounds", 1, x.account(5));
         Check.same("the listener balks", 1, x.machine(1, 6));
@@ -183,9 +184,9 @@ final class RoundBoundaries {
         Sentences.about(17, "A ROUND", "The machines that bid for the letter pay the price together, to the chest: "
             + "each price * bid / sum, where sum is the sum of their bids; then, as long as this is less than the price, "
             + "each of them in ascending order, again and again, pays one coin more if it has paid less than its bid.");
-        int[][] coins = {{3, 4, 0}, {3, 4, 1}, {3, 4, 5}, {3, 4, 6}, {3, 4, 7}, {3, 4, 8}, {7, 7, 7}, {1, 7, 7}, {7, 1, 7}, {1, 1, 1},
+        int[][] coins = {{1, 0, 0}, {1, 0, 1}, {0, 1, 1}, {3, 4, 0}, {3, 4, 1}, {3, 4, 5}, {3, 4, 6}, {3, 4, 7}, {3, 4, 8}, {7, 7, 7}, {1, 7, 7}, {7, 1, 7}, {1, 1, 1},
             {1, 2, 2}, {2, 1, 2}, {63, 63, 63}, {63, 1, 63}, {1, 63, 63}, {62, 63, 63}};
-        int[][] due = {{0, 0, 0}, {1, 0, 0}, {3, 2, 0}, {3, 3, 0}, {3, 4, 0}, {0, 0, 7}, {4, 3, 0}, {1, 6, 0}, {7, 0, 0}, {1, 0, 0},
+        int[][] due = {{0, 0, 0}, {1, 0, 0}, {0, 1, 0}, {0, 0, 0}, {1, 0, 0}, {3, 2, 0}, {3, 3, 0}, {3, 4, 0}, {0, 0, 7}, {4, 3, 0}, {1, 6, 0}, {7, 0, 0}, {1, 0, 0},
             {1, 1, 0}, {2, 0, 0}, {32, 31, 0}, {63, 0, 0}, {1, 62, 0}, {32, 31, 0}};
         for (int i = 0; i < due.length; i++) {
             LetterAuction x = Check.of("letters 2;machine p " + coins[i][0] + " 9 1;machine q " + coins[i][1] + " 9 1;machine r "
@@ -459,6 +460,15 @@ final class RoundBoundaries {
 
     private static void withoutMachines() {
         Sentences.about(28, "A ROUND", "Without machines each round is silent, and nothing else is done in it than to count it (and to log it).");
+        for (int price : new int[] {0, 1, 99}) {
+            // The machines of an earlier text are none.
+            LetterAuction none = Recipes.large();
+            Check.same("parse", 0, Check.parse(none, "letters 3;turn 1 " + price + ";"));
+            none.play(20);
+            Check.same("chest", 0, none.size(4));
+            Check.same("coins paid for resets", 0, none.account(3));
+            Check.same("silent rounds", 20, none.account(5));
+        }
         LetterAuction x = Check.of("letters 3;turn 1 0;");
         for (int n = 1; n <= 5; n++) {
             Check.same("play(20)", 0, x.play(20));
@@ -605,7 +615,15 @@ final class RoundBoundaries {
         Check.outsideIndex("pays of four", 0, 3, x::pays);
         Check.outsideIndex("pays of none", 0, -1, new LetterAuction()::pays);
         LetterAuction silent = Check.of("letters 2;machine p 0 1 1;go p 0 a 0;accept p 0;machine q 9 1 1;go q 0 b 0;");
-        for (LetterAuction none : new LetterAuction[] {silent, new LetterAuction()}) {
+        // A round was paid before, and none can be told now.
+        LetterAuction tired = Check.of("letters 2;machine p 9 1 1;machine q 9 1 1;go p 0 a 0;go q 0 b 0;accept p 0;accept q 0;tire p 0 1;"
+            + "tire q 0 1;");
+        tired.play(1);
+        tired.buy(1, 1);
+        Check.same("a silent round", 0, tired.play(1));
+        Check.same("price in the log of the silent round", 0, tired.log(0, 1));
+        Check.same("price in the log of the one that was paid", 7, tired.log(2, 1));
+        for (LetterAuction none : new LetterAuction[] {silent, tired, new LetterAuction()}) {
             Sentences.about(15, "NONE if it would be silent.");
             Check.same("winner", -1, none.winner());
             Sentences.about(16, "0 if it would be silent.");

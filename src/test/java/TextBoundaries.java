@@ -561,6 +561,13 @@ final class TextBoundaries {
             Check.parse(x, text);
             return x;
         }));
+        Check.same("nothing stays of the text before the last one", Whole.of(() -> passes(text)), Whole.of(() -> {
+            LetterAuction x = passes("letters 4;turn 2 2;machine a 1 1 6 listens;machine b 1 1 6 listens;accept a 0;accept a 1;accept b 1;"
+                + "tire a 0 9;tire b 0 9;go a 0 a 0;go a 0 d 0;go b 1 b 1;");
+            Check.parse(x, "letters 1;");
+            Check.parse(x, text);
+            return x;
+        }));
         Check.same("a text without machines", Whole.of(() -> passes("letters 4;")), Whole.of(() -> {
             LetterAuction x = Recipes.busy();
             x.parse(0);

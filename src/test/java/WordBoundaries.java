@@ -25,6 +25,7 @@ final class WordBoundaries {
         shortestLetter();
         firstInAlphabet();
         differs();
+        lastLetterOfFour();
         strengthsAndCoinsPlayNoPart();
     }
 
@@ -252,6 +253,9 @@ final class WordBoundaries {
             Check.same("to the last of " + states + " states", states - 1, ring(states, 1).shortest(1));
         }
         Check.same("rings of 6 and 5", 29, ring(6, 5).shortest(3));
+        Check.same("rings of 6, 5, 4 and 3", 59, ring(6, 5, 4, 3).shortest(15));
+        Check.same("rings of 3, 4, 5 and 6", 59, ring(3, 4, 5, 6).shortest(15));
+        Check.same("four rings of 6", 5, ring(6, 6, 6, 6).shortest(15));
         Sentences.about(23, "NONE if there is no such word.");
         Check.same("no state accepts", -1, Check.of("letters 1;machine p 1 1 1;go p 0 a 0;").shortest(1));
         Check.same("a state that accepts, but no way to it", -1, Check.of("letters 1;machine p 1 1 2;go p 1 a 0;accept p 1;").shortest(1));
@@ -263,16 +267,18 @@ final class WordBoundaries {
 
     private static final String RING = "letters 1;machine p 1 1 6;go p 0 a 1;go p 1 a 2;go p 2 a 3;go p 3 a 4;go p 4 a 5;go p 5 a 0;accept p 5;";
 
-    /** Two rings of states, of which the last ones accept. */
-    private static LetterAuction ring(int states, int others) {
-        StringBuilder text = new StringBuilder("letters 1;machine p 1 1 " + states + ";machine q 1 1 " + others + ";");
-        for (int state = 0; state < states; state++) {
-            text.append("go p ").append(state).append(" a ").append((state + 1) % states).append(';');
+    /** Machines whose states are rings, of which the last states accept. */
+    private static LetterAuction ring(int... states) {
+        StringBuilder text = new StringBuilder("letters 1;");
+        for (int m = 0; m < states.length; m++) {
+            char name = "pqrs".charAt(m);
+            text.append("machine ").append(name).append(" 1 1 ").append(states[m]).append(";accept ").append(name);
+            text.append(' ').append(states[m] - 1).append(';');
+            for (int state = 0; state < states[m]; state++) {
+                text.append("go ").append(name).append(' ').append(state).append(" a ").append((state + 1) % states[m]).append(';');
+            }
         }
-        for (int state = 0; state < others; state++) {
-            text.append("go q ").append(state).append(" a ").append((state + 1) % others).append(';');
-        }
-        return Check.of(text + "accept p " + (states - 1) + ";accept q " + (others - 1) + ";");
+        return Check.of(text.toString());
     }
 
     private static void shortestLetter() {
@@ -302,6 +308,9 @@ final class WordBoundaries {
         LetterAuction ring = ring(6, 5);
         Check.same("letter 28 of 29", 0, ring.shortestLetter(3, 28));
         Check.same("letter 29 of 29", -1, ring.shortestLetter(3, 29));
+        LetterAuction rings = ring(6, 5, 4, 3);
+        Check.same("letter 58 of 59", 0, rings.shortestLetter(15, 58));
+        Check.same("letter 59 of 59", -1, rings.shortestLetter(15, 59));
     }
 
     private static void firstInAlphabet() {
@@ -358,6 +367,10 @@ final class WordBoundaries {
         Check.same("with one that accepts nothing", 0, same.differs(3, 0));
         LetterAuction nothing = Check.of("letters 2;machine p 1 1 1;machine q 1 1 2;go q 0 a 1;go q 1 b 0;");
         Check.same("both accept nothing", -1, nothing.differs(0, 1));
+        LetterAuction empty = Check.of("letters 1;machine p 1 1 1;machine q 1 1 2;machine r 1 1 2;accept p 0;go q 0 a 1;go q 1 a 1;accept q 0;"
+            + "go r 0 a 1;go r 1 a 0;accept r 0;");
+        Check.same("both accept the empty word alone, the one comes to its end", -1, empty.differs(0, 1));
+        Check.same("the other one goes on, and accepts again", 2, empty.differs(2, 0));
         Sentences.about(25, "Throws `IndexOutOfBoundsException` if one of the machines does not exist");
         Check.outsideIndex("differs(m, 0) of two", 0, 1, m -> nothing.differs(m, 0));
         Check.outsideIndex("differs(0, m) of two", 0, 1, m -> nothing.differs(0, m));
@@ -376,6 +389,22 @@ final class WordBoundaries {
             }
         }
         return text.toString();
+    }
+
+    /** Behind the last letter of a state nothing comes, not even the first letter of the next state. */
+    private static void lastLetterOfFour() {
+        Sentences.about(23, "WORDS", "A machine accepts a word if it comes from state 0 by its letters, one after the other, "
+            + "to a state that accepts");
+        LetterAuction x = Check.of("letters 4;machine p 9 1 6;machine q 9 1 6;machine r 9 1 6;machine s 9 1 6;go p 1 a 2;accept p 2;"
+            + "go q 0 d 5;accept q 5;go s 0 d 5;go s 5 d 5;accept s 4;");
+        Check.same("shortest of p", -1, x.shortest(1));
+        Check.same("words of p", 0, x.words(1, 1));
+        Check.same("shortest of q", 1, x.shortest(2));
+        Check.same("its letter", 3, x.shortestLetter(2, 0));
+        Check.same("shortest of s", -1, x.shortest(8));
+        Check.same("words of s", 0, x.words(8, 20));
+        Check.same("p and s accept nothing", -1, x.differs(0, 3));
+        Check.same("q accepts d", 1, x.differs(1, 3));
     }
 
     private static void strengthsAndCoinsPlayNoPart() {
