@@ -21,7 +21,7 @@ public final class AllTests {
         Sentences.compare();
         RoomTests.run();
         RandomTests.run();
-        System.out.println(Check.made + " answers, " + Check.wrong + " wrong");
+        System.out.println((Check.made - Check.wrong) + " passed, " + Check.wrong + " failed");
         if (Check.wrong != 0) {
             System.exit(1);
         }

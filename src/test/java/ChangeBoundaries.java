@@ -48,8 +48,8 @@ final class ChangeBoundaries {
         x.buy(0, 3);
         Check.same("the letter d", 3, x.letter(1));
         Sentences.about(0, "What it is", "All numbers are integers; all divisions truncate.");
-        LetterAuction y = Check.of("letters 2;machine p 7 9 1;machine q 14 9 1;machine r 11 9 1;go p 0 a 0;accept p 0;go q 0 a 0;accept q 0;"
-            + "go r 0 b 0;accept r 0;turn 1 99;");
+        LetterAuction y = Check.of("letters 2;machine p 7 9 1;machine q 14 9 1;machine r 11 9 1;go p 0 a 0;accept p 0;"
+            + "go q 0 a 0;accept q 0;go r 0 b 0;accept r 0;turn 1 99;");
         Check.same("11 * 7 / 21, and one of the rest", 4, y.pays(0));
         Check.same("11 * 14 / 21", 7, y.pays(1));
         y.play(1);
@@ -59,7 +59,8 @@ final class ChangeBoundaries {
 
     /** Changes that alter something and changes that alter nothing but the history. */
     private static void whatIsAChange() {
-        Sentences.about(33, "CHANGES", "The methods from play to setWeight are changes if they throw no exception, also if they alter nothing.");
+        Sentences.about(33, "CHANGES", "The methods from play to setWeight are changes if they throw no exception, "
+            + "also if they alter nothing.");
         List<Consumer<LetterAuction>> changes = List.of(y -> y.play(1), y -> y.buy(0, 0), y -> y.reset(0), y -> y.give(0, 1, 1),
             y -> y.setWeight(0, 9), y -> y.give(0, 1, 0), y -> y.give(0, 0, 5), y -> y.setWeight(0, 3));
         for (int i = 0; i < changes.size(); i++) {
@@ -80,7 +81,8 @@ final class ChangeBoundaries {
     }
 
     private static void whatIsNoChange() {
-        Sentences.about(33, "CHANGES", "The methods from play to setWeight are changes if they throw no exception, also if they alter nothing.");
+        Sentences.about(33, "CHANGES", "The methods from play to setWeight are changes if they throw no exception, "
+            + "also if they alter nothing.");
         LetterAuction x = Recipes.parsed();
         Check.raisesArgument("play(0)", () -> x.play(0));
         Check.raisesState("buy(0, 1)", () -> x.buy(0, 1));
@@ -166,43 +168,40 @@ final class ChangeBoundaries {
         Check.same("after an earlier one", before, Whole.now(x));
     }
 
-    /** An auction of the greatest size, and more entries in the log than are kept. */
-    private static void snapshotHoldsTheMost() {
-        Sentences.about(35, "CHANGES", "a snapshot holds everything that changes can change.");
-        String way = "acbdbdccb".repeat(5);
+    /** Of the greatest size, with more entries in the log than are kept; the first slot holds what was before them. */
+    private static LetterAuction most() {
         LetterAuction x = Recipes.large();
-        String first = Whole.now(x);
         x.saveSnapshot(0);
-        Recipes.go(x, way);
+        Recipes.go(x, "acbdbdccb".repeat(5));
         x.play(3);
         x.give(3, 0, 20);
         x.setWeight(3, 7);
         x.saveSnapshot(1);
         x.restoreSnapshot(1);
-        String second = Whole.now(x);
-        Check.same("letters", 48, x.size(2));
-        // Other letters and entries come to the places of the first ones.
-        x.restoreSnapshot(0);
-        Recipes.go(x, "dbab".repeat(15).substring(0, 47));
-        x.restoreSnapshot(1);
-        Check.same("the later one", second, Whole.now(x));
-        x.restoreSnapshot(0);
-        Check.same("the earlier one", first, Whole.now(x));
+        return x;
+    }
+
+    private static void snapshotHoldsTheMost() {
+        Sentences.about(35, "CHANGES", "a snapshot holds everything that changes can change.");
+        Check.same("letters", 48, most().size(2));
+        for (int slot = 0; slot <= 1; slot++) {
+            // Other letters and entries come to the places of the first ones.
+            LetterAuction x = most();
+            x.restoreSnapshot(0);
+            Recipes.go(x, "dbab".repeat(15).substring(0, 47));
+            x.restoreSnapshot(slot);
+            Check.same("slot " + slot, Whole.now(slot == 0 ? Recipes.large() : most()), Whole.now(x));
+        }
     }
 
     /** The history holds as much as a snapshot. */
     private static void undoOfTheMost() {
         Sentences.about(33, "Undoes the latest change that has not been undone.");
-        LetterAuction x = Recipes.large();
-        Recipes.go(x, "acbdbdccb".repeat(5));
-        x.saveSnapshot(0);
-        x.restoreSnapshot(0);
-        String before = Whole.now(x);
-        x.play(15);
+        LetterAuction x = most();
+        x.play(12);
         Check.same("the word is full", 60, x.size(2));
-        Check.same("the log holds the rounds", 0, x.log(14, 3));
         x.undo();
-        Check.same("all as before", before, Whole.now(x));
+        Check.same("all as before", Whole.now(most()), Whole.now(x));
     }
 
     private static void changeAll(LetterAuction x) {
@@ -356,7 +355,8 @@ final class ChangeBoundaries {
 
     private static void resetAlone() {
         Sentences.about(30, "The turns stay, and the chest is not shared.");
-        LetterAuction x = Check.of("letters 1;machine p 90 1 2;machine q 90 1 2 listens;go p 0 a 1;go q 0 a 1;tire p 1 4;tire q 1 4;turn 1 5;");
+        LetterAuction x = Check.of("letters 1;machine p 90 1 2;machine q 90 1 2 listens;go p 0 a 1;go q 0 a 1;"
+            + "tire p 1 4;tire q 1 4;turn 1 5;");
         x.buy(0, 0);
         x.reset(1);
         Check.same("whose turn is next", 0, x.size(5));

@@ -1,3 +1,6 @@
+import java.util.List;
+import java.util.function.Consumer;
+
 /** Promises 26, 27 and 29 to 35: log, account, buy, reset, give, setWeight, undo, snapshots. */
 final class ChangeTests {
     private static final String TEXT = "letters 2;machine x 20 3 3;machine y 8 2 2 listens;machine z 1 1 1 listens;"
@@ -229,25 +232,21 @@ final class ChangeTests {
     }
 
     private static void undoOfEach() {
-        LetterAuction x = Check.of(TEXT);
-        x.play(1);
-        String[] before = new String[6];
-        before[0] = Whole.now(x);
-        x.play(4);
-        before[1] = Whole.now(x);
-        x.buy(1, 0);
-        before[2] = Whole.now(x);
-        x.reset(0);
-        before[3] = Whole.now(x);
-        x.give(0, 1, 2);
-        before[4] = Whole.now(x);
-        x.setWeight(1, 9);
-        for (int i = 4; i >= 0; i--) {
-            Check.same("undo leaves", i + 1, x.undo());
-            Check.same("undo " + i, before[i], Whole.now(x));
+        List<Consumer<LetterAuction>> changes = List.of(x -> x.play(1), x -> x.play(4), x -> x.buy(1, 0), x -> x.reset(0),
+            x -> x.give(0, 1, 2), x -> x.setWeight(1, 9));
+        for (int left = changes.size() - 1; left >= 0; left--) {
+            LetterAuction x = changed(changes);
+            for (int n = changes.size() - 1; n >= left; n--) {
+                Check.same("undo leaves", n, x.undo());
+            }
+            Check.same("undo of all changes but " + left, Whole.now(changed(changes.subList(0, left))), Whole.now(x));
         }
-        Check.same("undo of the first", 0, x.undo());
-        Check.same("as new", Whole.now(Check.of(TEXT)), Whole.now(x));
+    }
+
+    private static LetterAuction changed(List<Consumer<LetterAuction>> changes) {
+        LetterAuction x = Check.of(TEXT);
+        changes.forEach(change -> change.accept(x));
+        return x;
     }
 
     private static void snapshots() {

@@ -7,8 +7,8 @@ import java.util.function.Supplier;
  * it, is compared with NaiveAuction. No call may throw anything that the document does not name.
  */
 final class GridTests {
-    private static final int[] MANY = {Integer.MIN_VALUE, Integer.MIN_VALUE + 1, -65536, -2, -1, 0, 1, 2, 3, 4, 5, 6, 7, 8, 9, 10, 14, 15, 16,
-        17, 19, 20, 21, 22, 59, 60, 61, 998, 999, 1000, 65536, 1 << 30, Integer.MAX_VALUE - 1, Integer.MAX_VALUE};
+    private static final int[] MANY = {Integer.MIN_VALUE, Integer.MIN_VALUE + 1, -65536, -2, -1, 0, 1, 2, 3, 4, 5, 6, 7, 8, 9, 10,
+        14, 15, 16, 17, 19, 20, 21, 22, 59, 60, 61, 998, 999, 1000, 65536, 1 << 30, Integer.MAX_VALUE - 1, Integer.MAX_VALUE};
     private static final int[] FEW = {Integer.MIN_VALUE, -1, 0, 1, 2, 3, 4, 5, 6, 20, 998, 999, 1000, Integer.MAX_VALUE};
     private static final int MOST_CALLS = 300;
 
@@ -24,8 +24,8 @@ final class GridTests {
     }
 
     static void run() {
-        Sentences.about(6, "CHANGES", "Unless something else is said, a machine, state, letter or slot that does not exist causes an "
-            + "IndexOutOfBoundsException, which is checked before any other exception.");
+        Sentences.about(6, "CHANGES", "Unless something else is said, a machine, state, letter or slot that does not "
+            + "exist causes an IndexOutOfBoundsException, which is checked before any other exception.");
         List<Recipe> recipes = List.of(pair -> { }, GridTests::busy, GridTests::four, GridTests::full);
         for (Recipe recipe : recipes) {
             queriesOfOne(recipe);
@@ -70,9 +70,10 @@ final class GridTests {
 
     /** Four machines, the second of which is in its last state, with letters that tire the third. */
     private static void four(GridTests pair) {
-        pair.parse("letters 4;machine p 999 9 6 listens;machine q 999 1 6;machine r 12 4 2 listens;machine s 0 1 1;go p 0 a 5;go p 5 d 0;"
-            + "go p 0 c 0;accept p 5;go q 0 a 5;go q 5 b 5;go q 5 d 0;accept q 5;go r 0 a 1;go r 1 a 1;go r 1 d 0;accept r 1;tire r 1 1;"
-            + "go s 0 b 0;accept s 0;turn 5 6;");
+        pair.parse("letters 4;machine p 999 9 6 listens;machine q 999 1 6;machine r 12 4 2 listens;machine s 0 1 1;"
+            + "go p 0 a 5;go p 5 d 0;"
+            + "go p 0 c 0;accept p 5;go q 0 a 5;go q 5 b 5;go q 5 d 0;accept q 5;go r 0 a 1;go r 1 a 1;go r 1 d 0;"
+            + "accept r 1;tire r 1 1;go s 0 b 0;accept s 0;turn 5 6;");
         pair.x.play(2);
         pair.y.play(2);
         pair.x.setWeight(3, 2);
@@ -80,8 +81,8 @@ final class GridTests {
     }
 
     private static void full(GridTests pair) {
-        pair.parse("letters 2;machine p 999 3 2;machine q 500 1 1 listens;go p 0 a 1;go p 1 a 1;go p 0 b 1;accept p 1;go q 0 b 0;accept q 0;"
-            + "turn 20 9;");
+        pair.parse("letters 2;machine p 999 3 2;machine q 500 1 1 listens;go p 0 a 1;go p 1 a 1;go p 0 b 1;accept p 1;"
+            + "go q 0 b 0;accept q 0;turn 20 9;");
         for (int n = 0; n < 3; n++) {
             pair.x.play(20);
             pair.y.play(20);

@@ -17,9 +17,10 @@ final class LogBoundaries {
         accountsSinceParse();
     }
 
-    private static final String KEPT = "The latest 20 entries are kept: of each round (also a silent one, with the letter NONE and the price 0) "
-        + "and of each letter that is bought: the letter, the price, the machines that bid for it (or the one that bought it) as bits, "
-        + "and the number of the round (the number of rounds that were over before it).";
+    private static final String KEPT = "The latest 20 entries are kept: of each round (also a silent one, with the "
+        + "letter NONE and the price 0) "
+        + "and of each letter that is bought: the letter, the price, the machines that bid for it (or the one that "
+        + "bought it) as bits, and the number of the round (the number of rounds that were over before it).";
 
     private static void latestTwenty() {
         Sentences.about(26, "LOG", KEPT);
@@ -55,8 +56,8 @@ final class LogBoundaries {
 
     private static void parts() {
         Sentences.about(26, "`part`: 0 the letter, 1 the price, 2 the machines as bits, 3 the number of the round");
-        LetterAuction x = Check.of("letters 4;machine p 9 1 1;machine q 5 2 1;machine r 9 3 1;go p 0 d 0;accept p 0;go q 0 a 0;accept q 0;"
-            + "go r 0 d 0;turn 20 0;");
+        LetterAuction x = Check.of("letters 4;machine p 9 1 1;machine q 5 2 1;machine r 9 3 1;go p 0 d 0;accept p 0;"
+            + "go q 0 a 0;accept q 0;go r 0 d 0;turn 20 0;");
         x.play(1);
         x.buy(2, 3);
         x.play(1);
@@ -118,8 +119,8 @@ final class LogBoundaries {
         Check.outsideArgument("account of an auction with machines", 0, 5, Recipes.busy()::account);
     }
 
-    private static final String ACCOUNTS = "`what`: 0 prices of rounds that were paid, 1 coins paid for letters that were bought, "
-        + "2 coins paid by machines that balked, 3 coins paid for resets (by turns and out of turn), "
+    private static final String ACCOUNTS = "`what`: 0 prices of rounds that were paid, 1 coins paid for letters that "
+        + "were bought, 2 coins paid by machines that balked, 3 coins paid for resets (by turns and out of turn), "
         + "4 coins that machines got from the chest, 5 silent rounds";
 
     private static void accountsAre(LetterAuction x, String when, int... due) {
@@ -131,8 +132,8 @@ final class LogBoundaries {
     private static void accounts() {
         Sentences.about(27, ACCOUNTS);
         // p bids 7 for a, q 5 for b; r listens and has two coins; all of them together buy, too.
-        LetterAuction x = Check.of("letters 2;machine p 99 1 1;machine q 5 3 1;machine r 2 1 1 listens;go p 0 a 0;accept p 0;go q 0 b 0;"
-            + "accept q 0;turn 20 2;");
+        LetterAuction x = Check.of("letters 2;machine p 99 1 1;machine q 5 3 1;machine r 2 1 1 listens;go p 0 a 0;"
+            + "accept p 0;go q 0 b 0;accept q 0;turn 20 2;");
         accountsAre(x, "at first", 0, 0, 0, 0, 0, 0);
         x.play(1);
         accountsAre(x, "after a round for 5", 5, 0, 1, 0, 0, 0);

@@ -41,8 +41,8 @@ final class MachineBoundaries {
         Sentences.about(7, "MACHINES", "Each time it enters a state that can tire (also the one in which it is; "
             + "not by a reset and not at the beginning), the strength of that state, at first times, becomes less by 1; "
             + "a state is tired if its strength is 0.");
-        LetterAuction x = Check.of("letters 2;machine p 99 1 2 listens;machine q 9 1 2;go p 0 a 0;go p 0 b 1;go p 1 a 0;go p 1 b 1;"
-            + "accept p 0;tire p 0 3;tire p 1 99;go q 0 a 0;go q 0 b 1;tire q 0 9;turn 20 0;");
+        LetterAuction x = Check.of("letters 2;machine p 99 1 2 listens;machine q 9 1 2;go p 0 a 0;go p 0 b 1;"
+            + "go p 1 a 0;go p 1 b 1;accept p 0;tire p 0 3;tire p 1 99;go q 0 a 0;go q 0 b 1;tire q 0 9;turn 20 0;");
         strengths(x, "not at the beginning", 3, 99);
         x.buy(0, 0);
         strengths(x, "also the one in which it is", 2, 99);
@@ -63,7 +63,8 @@ final class MachineBoundaries {
         strengths(x, "by the letter of a round", 2, 99);
         x.buy(1, 1);
         strengths(x, "by listening", 2, 98);
-        Check.same("strength 99 of 99 is not tired", 3, Check.of("letters 1;machine p 1 1 1;go p 0 a 0;tire p 0 99;").whyNotBid(0, 0));
+        Check.same("strength 99 of 99 is not tired", 3, Check.of("letters 1;machine p 1 1 1;go p 0 a 0;"
+            + "tire p 0 99;").whyNotBid(0, 0));
     }
 
     private static void strengths(LetterAuction x, String when, int ofFirst, int ofSecond) {
@@ -119,8 +120,8 @@ final class MachineBoundaries {
     /** Behind the last letter of a state nothing comes, not even the first letter of the next state. */
     private static void distanceByLastLetter() {
         Sentences.about(10, "Returns the distance");
-        LetterAuction x = Check.of("letters 4;machine p 9 1 6;machine q 9 1 6;machine r 9 1 6;machine s 9 1 6;go p 1 a 2;accept p 2;"
-            + "go q 0 d 5;go q 1 a 0;accept q 5;go s 4 d 5;go s 5 d 4;accept s 0;go r 5 a 5;accept r 5;");
+        LetterAuction x = Check.of("letters 4;machine p 9 1 6;machine q 9 1 6;machine r 9 1 6;machine s 9 1 6;"
+            + "go p 1 a 2;accept p 2;go q 0 d 5;go q 1 a 0;accept q 5;go s 4 d 5;go s 5 d 4;accept s 0;go r 5 a 5;accept r 5;");
         distances(x, -1, 1, 0, -1, -1, -1);
         Check.same("by the last letter", 1, x.distance(1, 0));
         Check.same("by the first letter to it", 2, x.distance(1, 1));
@@ -136,8 +137,10 @@ final class MachineBoundaries {
     }
 
     private static void distanceWithTiredStates() {
-        Sentences.about(10, "MACHINES", "The distance of a state is the least number of letters by which the machine could come from it "
-            + "to a state that accepts, if none of the states that are entered is tired now (strengths do not become less on the way)");
+        Sentences.about(10, "MACHINES", "The distance of a state is the least number of letters by which the machine "
+            + "could come from it "
+            + "to a state that accepts, if none of the states that are entered is tired now (strengths do not become "
+            + "less on the way)");
         // From 0 to 4: by state 1 in 2 letters, by 2 and 3 in 3 letters, from 5 in 4 or 1 by state 4 itself.
         LetterAuction x = Check.of("letters 3;machine p 99 1 6;go p 0 a 1;go p 1 a 4;go p 0 b 2;go p 2 b 3;go p 3 b 4;go p 4 a 0;"
             + "go p 4 c 5;go p 5 a 0;accept p 4;tire p 1 2;tire p 2 1;tire p 4 3;turn 20 0;");
@@ -227,9 +230,10 @@ final class MachineBoundaries {
     }
 
     private static void machine() {
-        Sentences.about(6, "`what`: 0 its state, 1 its coins, 2 its weight, 3 how many states it has, 4 1 if it listens, otherwise 0, "
-            + "5 the letters by which it went, 6 how often it balked");
-        LetterAuction x = Check.of("letters 1;machine p 999 9 6;machine q 0 1 1 listens;machine r 5 2 3;machine s 1 3 2 listens;");
+        Sentences.about(6, "`what`: 0 its state, 1 its coins, 2 its weight, 3 how many states it has, 4 1 if it "
+            + "listens, otherwise 0, 5 the letters by which it went, 6 how often it balked");
+        LetterAuction x = Check.of("letters 1;machine p 999 9 6;machine q 0 1 1 listens;machine r 5 2 3;"
+            + "machine s 1 3 2 listens;");
         int[][] due = {{0, 999, 9, 6, 0, 0, 0}, {0, 0, 1, 1, 1, 0, 0}, {0, 5, 2, 3, 0, 0, 0}, {0, 1, 3, 2, 1, 0, 0}};
         for (int machine = 0; machine < 4; machine++) {
             for (int what = 0; what <= 6; what++) {
@@ -274,7 +278,8 @@ final class MachineBoundaries {
     }
 
     private static void strength() {
-        String text = "letters 1;machine p 9 1 6;machine q 9 1 1;go p 0 a 5;go p 5 a 5;go q 0 a 0;tire p 5 2;tire q 0 1;turn 20 0;";
+        String text = "letters 1;machine p 9 1 6;machine q 9 1 1;go p 0 a 5;go p 5 a 5;go q 0 a 0;tire p 5 2;"
+            + "tire q 0 1;turn 20 0;";
         LetterAuction x = Check.of(text);
         Sentences.about(7, "Returns the strength");
         Check.same("of the last state", 2, x.strength(0, 5));

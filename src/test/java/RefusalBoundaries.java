@@ -129,8 +129,8 @@ final class RefusalBoundaries {
 
     /** Each call has two reasons or more to be refused. */
     private static void whatIsCheckedFirst() {
-        Sentences.about(6, "CHANGES", "Unless something else is said, a machine, state, letter or slot that does not exist causes an "
-            + "IndexOutOfBoundsException, which is checked before any other exception.");
+        Sentences.about(6, "CHANGES", "Unless something else is said, a machine, state, letter or slot that does not "
+            + "exist causes an IndexOutOfBoundsException, which is checked before any other exception.");
         LetterAuction x = Recipes.busy();
         Check.raisesIndex("machine(3, 7)", () -> x.machine(3, 7));
         Check.raisesIndex("coinsAfter(3, 0)", () -> x.coinsAfter(3, 0));

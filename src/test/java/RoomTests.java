@@ -12,9 +12,8 @@ final class RoomTests {
     static void run() {
         com.sun.management.ThreadMXBean threads = (com.sun.management.ThreadMXBean) ManagementFactory.getThreadMXBean();
         long self = Thread.currentThread().getId();
-        LetterAuction x = new LetterAuction();
         LetterAuction[] made = new LetterAuction[10];
-        callAll(x);
+        callAll(new LetterAuction());
         long before = threads.getThreadAllocatedBytes(self);
         for (int i = 0; i < made.length; i++) {
             made[i] = new LetterAuction();
@@ -22,7 +21,8 @@ final class RoomTests {
         long anObject = (threads.getThreadAllocatedBytes(self) - before) / made.length;
         Check.yes("an auction takes less than 80 KB, not " + anObject, anObject < 80_000);
         before = threads.getThreadAllocatedBytes(self);
-        for (int i = 0; i < 20; i++) {
+        for (LetterAuction x : made) {
+            callAll(x);
             callAll(x);
         }
         long calls = threads.getThreadAllocatedBytes(self) - before;

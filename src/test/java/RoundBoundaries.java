@@ -133,7 +133,8 @@ final class RoundBoundaries {
     private static void greatestSum() {
         Sentences.about(15, "A ROUND", "Otherwise the letter with the greatest sum of bids is told, of several the first one; "
             + "it comes to the end of the word.");
-        int[][] coins = {{5, 4, 0}, {5, 5, 0}, {5, 6, 0}, {0, 5, 4}, {0, 5, 5}, {0, 5, 6}, {5, 5, 5}, {5, 5, 6}, {5, 6, 6}, {6, 5, 6}, {0, 0, 1}};
+        int[][] coins = {{5, 4, 0}, {5, 5, 0}, {5, 6, 0}, {0, 5, 4}, {0, 5, 5}, {0, 5, 6}, {5, 5, 5}, {5, 5, 6}, {5, 6, 6}, {6, 5, 6},
+            {0, 0, 1}};
         int[] due = {0, 0, 1, 1, 1, 2, 0, 2, 1, 0, 2};
         for (int i = 0; i < due.length; i++) {
             LetterAuction x = bidding(coins[i][0], coins[i][1], coins[i][2]);
@@ -184,14 +185,15 @@ final class RoundBoundaries {
         Sentences.about(17, "A ROUND", "The machines that bid for the letter pay the price together, to the chest: "
             + "each price * bid / sum, where sum is the sum of their bids; then, as long as this is less than the price, "
             + "each of them in ascending order, again and again, pays one coin more if it has paid less than its bid.");
-        int[][] coins = {{1, 0, 0}, {1, 0, 1}, {0, 1, 1}, {3, 4, 0}, {3, 4, 1}, {3, 4, 5}, {3, 4, 6}, {3, 4, 7}, {3, 4, 8}, {7, 7, 7}, {1, 7, 7}, {7, 1, 7}, {1, 1, 1},
-            {1, 2, 2}, {2, 1, 2}, {63, 63, 63}, {63, 1, 63}, {1, 63, 63}, {62, 63, 63}};
-        int[][] due = {{0, 0, 0}, {1, 0, 0}, {0, 1, 0}, {0, 0, 0}, {1, 0, 0}, {3, 2, 0}, {3, 3, 0}, {3, 4, 0}, {0, 0, 7}, {4, 3, 0}, {1, 6, 0}, {7, 0, 0}, {1, 0, 0},
-            {1, 1, 0}, {2, 0, 0}, {32, 31, 0}, {63, 0, 0}, {1, 62, 0}, {32, 31, 0}};
-        for (int i = 0; i < due.length; i++) {
-            LetterAuction x = Check.of("letters 2;machine p " + coins[i][0] + " 9 1;machine q " + coins[i][1] + " 9 1;machine r "
-                + coins[i][2] + " 9 1;go p 0 a 0;accept p 0;go q 0 a 0;accept q 0;go r 0 b 0;accept r 0;turn 20 0;");
-            paid(x, coins[i], due[i]);
+        // The coins of each, and what each pays.
+        int[][] rows = {{1, 0, 0, 0, 0, 0}, {1, 0, 1, 1, 0, 0}, {0, 1, 1, 0, 1, 0}, {3, 4, 0, 0, 0, 0}, {3, 4, 1, 1, 0, 0},
+            {3, 4, 5, 3, 2, 0}, {3, 4, 6, 3, 3, 0}, {3, 4, 7, 3, 4, 0}, {3, 4, 8, 0, 0, 7}, {7, 7, 7, 4, 3, 0},
+            {1, 7, 7, 1, 6, 0}, {7, 1, 7, 7, 0, 0}, {1, 1, 1, 1, 0, 0}, {1, 2, 2, 1, 1, 0}, {2, 1, 2, 2, 0, 0},
+            {63, 63, 63, 32, 31, 0}, {63, 1, 63, 63, 0, 0}, {1, 63, 63, 1, 62, 0}, {62, 63, 63, 32, 31, 0}};
+        for (int[] row : rows) {
+            LetterAuction x = Check.of("letters 2;machine p " + row[0] + " 9 1;machine q " + row[1] + " 9 1;machine r "
+                + row[2] + " 9 1;go p 0 a 0;accept p 0;go q 0 a 0;accept q 0;go r 0 b 0;accept r 0;turn 20 0;");
+            paid(x, new int[] {row[0], row[1], row[2]}, new int[] {row[3], row[4], row[5]});
         }
     }
 
@@ -212,14 +214,16 @@ final class RoundBoundaries {
 
     /** p, q and r bid their coins for b, s its own for a, or s is the first of the four. */
     private static void paymentsOfThree() {
-        Sentences.about(17, "A ROUND", "each of them in ascending order, again and again, pays one coin more if it has paid less than its bid.");
+        Sentences.about(17, "A ROUND", "each of them in ascending order, again and again, pays one coin more if it has "
+            + "paid less than its bid.");
         int[][] coins = {{5, 5, 5, 6}, {5, 5, 5, 7}, {5, 5, 5, 8}, {5, 5, 5, 9}, {1, 1, 1, 1}, {1, 1, 1, 2}, {7, 7, 7, 20}, {1, 2, 3, 5}};
         int[][] due = {{2, 2, 2, 0}, {3, 2, 2, 0}, {3, 3, 2, 0}, {3, 3, 3, 0}, {1, 0, 0, 0}, {1, 1, 0, 0}, {7, 7, 6, 0}, {1, 2, 2, 0}};
         for (int i = 0; i < due.length; i++) {
             String[] machines = new String[4];
             for (int m = 0; m < 4; m++) {
                 char name = "pqrs".charAt(m);
-                machines[m] = "machine " + name + " " + coins[i][m] + " 9 1;go " + name + " 0 " + (m < 3 ? "b" : "a") + " 0;accept " + name + " 0;";
+                String letter = m < 3 ? " 0 b 0;" : " 0 a 0;";
+                machines[m] = "machine " + name + " " + coins[i][m] + " 9 1;go " + name + letter + "accept " + name + " 0;";
             }
             String text = "letters 2;turn 20 0;";
             paid(Check.of(text + machines[0] + machines[1] + machines[2] + machines[3]), coins[i], due[i]);
@@ -274,7 +278,8 @@ final class RoundBoundaries {
     private static void listenersCoins() {
         Sentences.about(28, "A ROUND", "otherwise it balks, and pays one coin to the chest, if it has one.");
         for (int coins = 0; coins <= 2; coins++) {
-            LetterAuction x = Check.of("letters 1;machine p 9 1 1;machine q " + coins + " 1 1 listens;go p 0 a 0;accept p 0;turn 20 0;");
+            LetterAuction x = Check.of("letters 1;machine p 9 1 1;machine q " + coins + " 1 1 listens;go p 0 a 0;"
+                + "accept p 0;turn 20 0;");
             for (int n = 1; n <= 3; n++) {
                 x.play(1);
                 Check.same("balked", n, x.machine(1, 6));
@@ -308,7 +313,8 @@ final class RoundBoundaries {
 
     /** p goes to state 1, then it is its turn. */
     private static LetterAuction withTurn(int coins, int price) {
-        return Check.of("letters 1;machine p " + coins + " 1 2 listens;machine q 9 1 1;go p 0 a 1;go q 0 a 0;accept q 0;tire p 1 3;turn 1 "
+        return Check.of("letters 1;machine p " + coins + " 1 2 listens;machine q 9 1 1;go p 0 a 1;go q 0 a 0;"
+            + "accept q 0;tire p 1 3;turn 1 "
             + price + ";");
     }
 
@@ -319,8 +325,8 @@ final class RoundBoundaries {
                 x.play(1);
                 boolean isReset = coins >= price;
                 Sentences.about(28, "A ROUND", isReset
-                    ? "the machine whose turn it is tries a reset: if it has coins for the price of a turn, it pays that to the chest, "
-                        + "its states have their first strengths again, and it is in state 0"
+                    ? "the machine whose turn it is tries a reset: if it has coins for the price of a turn, it pays "
+                        + "that to the chest, its states have their first strengths again, and it is in state 0"
                     : "otherwise nothing is done.");
                 int paid = isReset ? price : 0;
                 Check.same("state with " + coins + " coins for " + price, isReset ? 0 : 1, x.machine(0, 0));
@@ -337,7 +343,8 @@ final class RoundBoundaries {
     private static void coinsWhenTurnComes() {
         Sentences.about(28, "A ROUND", "if it has coins for the price of a turn, it pays that to the chest");
         for (int coins = 4; coins <= 6; coins++) {
-            LetterAuction balks = Check.of("letters 1;machine p " + coins + " 1 1 listens;machine q 9 1 1;go q 0 a 0;accept q 0;turn 1 4;");
+            LetterAuction balks = Check.of("letters 1;machine p " + coins + " 1 1 listens;machine q 9 1 1;go q 0 a 0;"
+                + "accept q 0;turn 1 4;");
             balks.play(1);
             Check.same("a coin for balking before, of " + coins, coins > 4 ? 4 : 0, balks.account(3));
             LetterAuction bids = Check.of("letters 2;machine p " + (coins + 3) + " 1 1;machine q 4 1 1;go p 0 a 0;accept p 0;"
@@ -366,8 +373,8 @@ final class RoundBoundaries {
 
     private static void whatResetGives() {
         Sentences.about(28, "A ROUND", "its states have their first strengths again, and it is in state 0");
-        LetterAuction x = Check.of("letters 1;machine p 50 1 3;machine q 50 1 3 listens;go p 0 a 1;go p 1 a 2;go p 2 a 2;accept p 2;"
-            + "go q 0 a 1;go q 1 a 2;go q 2 a 2;tire p 1 5;tire p 2 7;tire q 1 5;tire q 2 7;turn 4 3;");
+        LetterAuction x = Check.of("letters 1;machine p 50 1 3;machine q 50 1 3 listens;go p 0 a 1;go p 1 a 2;"
+            + "go p 2 a 2;accept p 2;go q 0 a 1;go q 1 a 2;go q 2 a 2;tire p 1 5;tire p 2 7;tire q 1 5;tire q 2 7;turn 4 3;");
         x.play(3);
         stands("p before its turn", x, 0, 2, 4, 5);
         stands("q before a turn", x, 1, 2, 4, 5);
@@ -459,7 +466,8 @@ final class RoundBoundaries {
     }
 
     private static void withoutMachines() {
-        Sentences.about(28, "A ROUND", "Without machines each round is silent, and nothing else is done in it than to count it (and to log it).");
+        Sentences.about(28, "A ROUND", "Without machines each round is silent, and nothing else is done in it than to "
+            + "count it (and to log it).");
         for (int price : new int[] {0, 1, 99}) {
             // The machines of an earlier text are none.
             LetterAuction none = Recipes.large();
@@ -516,7 +524,8 @@ final class RoundBoundaries {
     private static void nothingChanges() {
         Sentences.about(12, "nothing changes (whether the word is full does not matter, except where it is said)");
         Check.same("all as before", Whole.of(Recipes::busy), Whole.of(() -> asked(Recipes.busy())));
-        Check.same("all as before, with a full word", Whole.of(() -> Recipes.withLetters(60)), Whole.of(() -> asked(Recipes.withLetters(60))));
+        Check.same("all as before, with a full word", Whole.of(() -> Recipes.withLetters(60)),
+            Whole.of(() -> asked(Recipes.withLetters(60))));
         Check.same("all as before, without machines", Whole.of(Recipes::fresh), Whole.of(() -> asked(Recipes.fresh())));
     }
 
@@ -540,7 +549,8 @@ final class RoundBoundaries {
     private static void fullWordDoesNotMatter() {
         Sentences.about(15, "Returns the letter that would be told in the next round, if the word was not full.");
         // From state 0 and with these coins, both before the last letter and behind it.
-        String text = "letters 2;machine p 900 2 1;machine q 900 1 1 listens;go p 0 a 0;accept p 0;go q 0 b 0;accept q 0;turn 20 0;";
+        String text = "letters 2;machine p 900 2 1;machine q 900 1 1 listens;go p 0 a 0;accept p 0;go q 0 b 0;"
+            + "accept q 0;turn 20 0;";
         LetterAuction x = Check.of(text);
         for (int n = 0; n < 3; n++) {
             nextRound(x);
@@ -562,8 +572,8 @@ final class RoundBoundaries {
     }
 
     private static void bidLetterAndBid() {
-        LetterAuction x = Check.of("letters 4;machine p 9 1 1;machine q 9 1 1;machine r 0 1 1;machine s 9 1 1;go p 0 d 0;accept p 0;"
-            + "go q 0 a 0;accept q 0;go r 0 a 0;accept r 0;");
+        LetterAuction x = Check.of("letters 4;machine p 9 1 1;machine q 9 1 1;machine r 0 1 1;machine s 9 1 1;"
+            + "go p 0 d 0;accept p 0;go q 0 a 0;accept q 0;go r 0 a 0;accept r 0;");
         Sentences.about(12, "Returns the letter for which a machine bids now.");
         Check.same("the last letter", 3, x.bidLetter(0));
         Sentences.about(12, "Returns the letter");
@@ -590,8 +600,8 @@ final class RoundBoundaries {
     }
 
     private static void sumWinnerPricePays() {
-        LetterAuction x = Check.of("letters 4;machine p 9 1 1;machine q 5 1 1;machine r 3 1 1;machine s 0 1 1;go p 0 d 0;accept p 0;"
-            + "go q 0 a 0;accept q 0;go r 0 a 0;accept r 0;go s 0 b 0;accept s 0;");
+        LetterAuction x = Check.of("letters 4;machine p 9 1 1;machine q 5 1 1;machine r 3 1 1;machine s 0 1 1;"
+            + "go p 0 d 0;accept p 0;go q 0 a 0;accept q 0;go r 0 a 0;accept r 0;go s 0 b 0;accept s 0;");
         Sentences.about(14, "Returns the sum of bids for a letter now.");
         int[] sums = {8, 0, 0, 7};
         for (int letter = 0; letter < 4; letter++) {
@@ -616,8 +626,8 @@ final class RoundBoundaries {
         Check.outsideIndex("pays of none", 0, -1, new LetterAuction()::pays);
         LetterAuction silent = Check.of("letters 2;machine p 0 1 1;go p 0 a 0;accept p 0;machine q 9 1 1;go q 0 b 0;");
         // A round was paid before, and none can be told now.
-        LetterAuction tired = Check.of("letters 2;machine p 9 1 1;machine q 9 1 1;go p 0 a 0;go q 0 b 0;accept p 0;accept q 0;tire p 0 1;"
-            + "tire q 0 1;");
+        LetterAuction tired = Check.of("letters 2;machine p 9 1 1;machine q 9 1 1;go p 0 a 0;go q 0 b 0;accept p 0;"
+            + "accept q 0;tire p 0 1;tire q 0 1;");
         tired.play(1);
         tired.buy(1, 1);
         Check.same("a silent round", 0, tired.play(1));
@@ -634,8 +644,8 @@ final class RoundBoundaries {
     }
 
     private static void coinsAfter() {
-        String text = "letters 2;machine p 90 2 2 listens;machine q 70 1 2 listens;go p 0 a 1;go p 1 b 0;accept p 1;go q 0 a 0;go q 0 b 0;"
-            + "accept q 0;tire q 0 5;turn 3 4;";
+        String text = "letters 2;machine p 90 2 2 listens;machine q 70 1 2 listens;go p 0 a 1;go p 1 b 0;accept p 1;"
+            + "go q 0 a 0;go q 0 b 0;accept q 0;tire q 0 5;turn 3 4;";
         Sentences.about(18, "Returns the coins of a machine after some rounds, if they were played now.");
         LetterAuction x = Check.of(text);
         for (int rounds = 1; rounds <= 20; rounds++) {
@@ -646,7 +656,8 @@ final class RoundBoundaries {
             }
         }
         // By hand: p pays 5 coins in each round for a letter, and 3 when its turn comes; then 13 are in the chest.
-        LetterAuction y = Check.of("letters 2;machine p 20 1 1;machine q 5 1 1;go p 0 a 0;accept p 0;go q 0 b 0;accept q 0;turn 2 3;");
+        LetterAuction y = Check.of("letters 2;machine p 20 1 1;machine q 5 1 1;go p 0 a 0;accept p 0;go q 0 b 0;"
+            + "accept q 0;turn 2 3;");
         Check.same("after one round", 15, y.coinsAfter(0, 1));
         Check.same("after two rounds", 13, y.coinsAfter(0, 2));
         Check.same("q after two rounds", 11, y.coinsAfter(1, 2));
@@ -655,7 +666,8 @@ final class RoundBoundaries {
         Sentences.about(18, "Throws `IllegalArgumentException` if rounds is out of range");
         Check.outsideArgument("coinsAfter(0, rounds)", 1, 20, rounds -> x.coinsAfter(0, rounds));
         Check.outsideArgument("coinsAfter(1, rounds)", 1, 20, rounds -> x.coinsAfter(1, rounds));
-        Check.outsideArgument("coinsAfter(0, rounds) of a full word", 1, 20, rounds -> Recipes.withLetters(60).coinsAfter(0, rounds));
+        Check.outsideArgument("coinsAfter(0, rounds) of a full word", 1, 20,
+            rounds -> Recipes.withLetters(60).coinsAfter(0, rounds));
         Sentences.about(18, "Throws `IndexOutOfBoundsException` if there is no such machine (checked first)");
         for (int rounds : new int[] {1, 20, 0, 21, -1}) {
             Check.outsideIndex("coinsAfter(m, " + rounds + ")", 0, 1, m -> x.coinsAfter(m, rounds));

@@ -266,7 +266,8 @@ final class TextBoundaries {
         passes(HEAD + "go p 1 b 1;go q 1 b 1;");
     }
 
-    private static final String RANGES = "count is 1 to 4, coins 0 to 999, weight 1 to 9, states (how many states the machine has) "
+    private static final String RANGES = "count is 1 to 4, coins 0 to 999, weight 1 to 9, states (how many states the "
+        + "machine has) "
         + "1 to 6, state 0 to the number of states of the machine minus 1, times 1 to 99, rounds 1 to 20, price 0 to 99.";
 
     private static void numbersOfHead() {
@@ -454,7 +455,8 @@ final class TextBoundaries {
     }
 
     private static void append() {
-        Sentences.about(2, "Appends 20 bytes to the input buffer: the four bytes of each argument, the most significant byte first.");
+        Sentences.about(2, "Appends 20 bytes to the input buffer: the four bytes of each argument, the most "
+            + "significant byte first.");
         LetterAuction x = new LetterAuction();
         // "letters 3;turn 17 5;"
         x.append(0x6c657474, 0x65727320, 0x333b7475, 0x726e2031, 0x3720353b);
@@ -562,8 +564,8 @@ final class TextBoundaries {
             return x;
         }));
         Check.same("nothing stays of the text before the last one", Whole.of(() -> passes(text)), Whole.of(() -> {
-            LetterAuction x = passes("letters 4;turn 2 2;machine a 1 1 6 listens;machine b 1 1 6 listens;accept a 0;accept a 1;accept b 1;"
-                + "tire a 0 9;tire b 0 9;go a 0 a 0;go a 0 d 0;go b 1 b 1;");
+            LetterAuction x = passes("letters 4;turn 2 2;machine a 1 1 6 listens;machine b 1 1 6 listens;accept a 0;"
+                + "accept a 1;accept b 1;tire a 0 9;tire b 0 9;go a 0 a 0;go a 0 d 0;go b 1 b 1;");
             Check.parse(x, "letters 1;");
             Check.parse(x, text);
             return x;

@@ -8,28 +8,25 @@ final class Whole {
     private Whole() {
     }
 
-    /** What is now, without the undo history, the slots and the buffer. */
+    /** What is now, without the undo history, the slots and the buffer; this takes some 330 calls at the most. */
     static String now(LetterAuction x) {
         StringBuilder all = new StringBuilder("sizes ");
         for (int what = 0; what <= 8; what++) {
             all.append(x.size(what)).append(' ');
         }
-        for (int machine = 0; machine < x.size(0); machine++) {
-            all.append("; machine ");
-            for (int what = 0; what <= 6; what++) {
-                all.append(x.machine(machine, what)).append(' ');
-            }
-            for (int state = 0; state < x.machine(machine, 3); state++) {
-                all.append(state(x, machine, state)).append(' ');
-            }
+        int machines = x.size(0);
+        int letters = x.size(1);
+        for (int machine = 0; machine < machines; machine++) {
+            machine(all.append("; machine "), x, machine, letters);
         }
         all.append("; word ");
-        for (int k = 0; x.letter(k) != LetterAuction.NONE; k++) {
+        int told = x.size(2);
+        for (int k = 0; k <= told; k++) {
             all.append(x.letter(k)).append(' ');
         }
         all.append("; log ");
-        for (int k = 0; x.log(k, 3) != LetterAuction.NONE; k++) {
-            all.append(x.log(k, 0)).append(',').append(x.log(k, 1)).append(',').append(x.log(k, 2)).append(',').append(x.log(k, 3)).append(' ');
+        for (int k = 0, round = x.log(0, 3); round != LetterAuction.NONE; k++, round = x.log(k, 3)) {
+            all.append(x.log(k, 0)).append(',').append(x.log(k, 1)).append(',').append(x.log(k, 2)).append(',').append(round).append(' ');
         }
         all.append("; accounts ");
         for (int what = 0; what <= 5; what++) {
@@ -38,13 +35,18 @@ final class Whole {
         return all.toString();
     }
 
-    private static String state(LetterAuction x, int machine, int state) {
-        StringBuilder all = new StringBuilder(x.isAccepting(machine, state) ? "accepts," : "");
-        all.append(x.strength(machine, state));
-        for (int letter = 0; letter < x.size(1); letter++) {
-            all.append(',').append(x.goes(machine, state, letter));
+    private static void machine(StringBuilder all, LetterAuction x, int machine, int letters) {
+        for (int what = 0; what <= 6; what++) {
+            all.append(x.machine(machine, what)).append(' ');
         }
-        return all.toString();
+        int states = x.machine(machine, 3);
+        for (int state = 0; state < states; state++) {
+            all.append(x.isAccepting(machine, state) ? "accepts," : "").append(x.strength(machine, state));
+            for (int letter = 0; letter < letters; letter++) {
+                all.append(',').append(x.goes(machine, state, letter));
+            }
+            all.append(' ');
+        }
     }
 
     /** What is now, what was before each change that can be undone, and what the slots hold. */

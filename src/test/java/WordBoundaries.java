@@ -78,8 +78,8 @@ final class WordBoundaries {
         Check.outsideIndex("accepts of none", 0, -1, new LetterAuction()::accepts);
         Sentences.about(20, "WORDS", "A machine accepts a word if it comes from state 0 by its letters, one after the other, "
             + "to a state that accepts");
-        LetterAuction y = Check.of("letters 2;machine p 9 1 2;machine q 9 1 2 listens;go p 0 a 1;go p 0 b 0;go q 0 b 1;go q 1 b 1;"
-            + "go q 1 a 0;accept q 0;turn 20 0;");
+        LetterAuction y = Check.of("letters 2;machine p 9 1 2;machine q 9 1 2 listens;go p 0 a 1;go p 0 b 0;go q 0 b 1;"
+            + "go q 1 b 1;go q 1 a 0;accept q 0;turn 20 0;");
         y.buy(0, 1);
         y.buy(0, 0);
         Check.yes("by b to 1, by a to 0", y.accepts(1));
@@ -96,8 +96,8 @@ final class WordBoundaries {
 
     private static void acceptsWithoutStrengths() {
         Sentences.about(20, "WORDS", "strengths and coins play no part in this.");
-        LetterAuction x = Check.of("letters 1;machine p 50 1 1;machine q 0 1 2;machine r 0 1 2 listens;go p 0 a 0;go q 0 a 1;go q 1 a 1;"
-            + "accept q 1;tire q 1 1;go r 0 a 1;go r 1 a 1;accept r 1;tire r 1 1;turn 20 0;");
+        LetterAuction x = Check.of("letters 1;machine p 50 1 1;machine q 0 1 2;machine r 0 1 2 listens;go p 0 a 0;"
+            + "go q 0 a 1;go q 1 a 1;accept q 1;tire q 1 1;go r 0 a 1;go r 1 a 1;accept r 1;tire r 1 1;turn 20 0;");
         for (int n = 1; n <= 3; n++) {
             x.buy(0, 0);
             Check.yes("one that did not go, and is in state 0", x.accepts(1));
@@ -124,7 +124,8 @@ final class WordBoundaries {
                     Check.of(text.toString()).isAgreed() ? 1 : 0);
             }
         }
-        LetterAuction x = Check.of("letters 1;machine p 9 1 2;machine q 9 1 2;go p 0 a 1;go q 0 a 1;accept p 1;accept q 1;tire q 1 1;");
+        LetterAuction x = Check.of("letters 1;machine p 9 1 2;machine q 9 1 2;go p 0 a 1;go q 0 a 1;accept p 1;"
+            + "accept q 1;tire q 1 1;");
         x.buy(0, 0);
         Check.no("one of two", x.isAgreed());
         x.buy(1, 0);
@@ -258,14 +259,16 @@ final class WordBoundaries {
         Check.same("four rings of 6", 5, ring(6, 6, 6, 6).shortest(15));
         Sentences.about(23, "NONE if there is no such word.");
         Check.same("no state accepts", -1, Check.of("letters 1;machine p 1 1 1;go p 0 a 0;").shortest(1));
-        Check.same("a state that accepts, but no way to it", -1, Check.of("letters 1;machine p 1 1 2;go p 1 a 0;accept p 1;").shortest(1));
+        Check.same("a state that accepts, but no way to it", -1, Check.of("letters 1;machine p 1 1 2;go p 1 a 0;"
+            + "accept p 1;").shortest(1));
         Check.same("rings of 6 and 4 that never agree", -1,
             Check.of(RING + "machine q 1 1 4;go q 0 a 1;go q 1 a 2;go q 2 a 3;go q 3 a 0;accept q 2;").shortest(3));
         Check.same("rings of 6 and 4 that agree", 5,
             Check.of(RING + "machine q 1 1 4;go q 0 a 1;go q 1 a 2;go q 2 a 3;go q 3 a 0;accept q 1;").shortest(3));
     }
 
-    private static final String RING = "letters 1;machine p 1 1 6;go p 0 a 1;go p 1 a 2;go p 2 a 3;go p 3 a 4;go p 4 a 5;go p 5 a 0;accept p 5;";
+    private static final String RING = "letters 1;machine p 1 1 6;go p 0 a 1;go p 1 a 2;go p 2 a 3;go p 3 a 4;"
+        + "go p 4 a 5;go p 5 a 0;accept p 5;";
 
     /** Machines whose states are rings, of which the last states accept. */
     private static LetterAuction ring(int... states) {
@@ -283,7 +286,8 @@ final class WordBoundaries {
 
     private static void shortestLetter() {
         Sentences.about(24, "Returns letter k of it");
-        LetterAuction x = Check.of("letters 4;machine p 1 1 4;go p 0 d 1;go p 1 a 2;go p 2 c 3;accept p 3;machine q 1 1 1;accept q 0;");
+        LetterAuction x = Check.of("letters 4;machine p 1 1 4;go p 0 d 1;go p 1 a 2;go p 2 c 3;accept p 3;"
+            + "machine q 1 1 1;accept q 0;");
         int[] due = {3, 0, 2};
         for (int k = 0; k < due.length; k++) {
             Check.same("shortestLetter(1, " + k + ")", due[k], x.shortestLetter(1, k));
@@ -317,7 +321,8 @@ final class WordBoundaries {
         Sentences.about(24, "Returns a letter of the shortest word that some machines together accept; "
             + "of several such words it is the one that comes first in the alphabet.");
         // All words of three letters that have the letter c somewhere, with one machine more.
-        LetterAuction x = Check.of("letters 3;machine p 1 1 6;machine q 1 1 2;go p 0 a 1;go p 0 b 1;go p 0 c 2;go p 1 a 3;go p 1 b 3;go p 1 c 4;"
+        LetterAuction x = Check.of("letters 3;machine p 1 1 6;machine q 1 1 2;go p 0 a 1;go p 0 b 1;go p 0 c 2;"
+            + "go p 1 a 3;go p 1 b 3;go p 1 c 4;"
             + "go p 2 a 4;go p 2 b 4;go p 2 c 4;go p 3 c 5;go p 4 a 5;go p 4 b 5;go p 4 c 5;accept p 5;"
             + "go q 0 a 0;go q 0 b 1;go q 0 c 0;go q 1 a 1;go q 1 b 1;go q 1 c 1;accept q 1;");
         word(x, 1, 0, 0, 2);
@@ -328,7 +333,8 @@ final class WordBoundaries {
         LetterAuction y = Check.of("letters 2;machine p 1 1 4;go p 0 a 2;go p 0 b 1;go p 1 a 3;go p 2 b 3;accept p 3;");
         word(y, 1, 0, 1);
         // The shorter word counts more than the alphabet: ba, not aaa.
-        LetterAuction z = Check.of("letters 2;machine p 1 1 5;go p 0 a 1;go p 1 a 2;go p 2 a 3;go p 0 b 4;go p 4 a 3;accept p 3;");
+        LetterAuction z = Check.of("letters 2;machine p 1 1 5;go p 0 a 1;go p 1 a 2;go p 2 a 3;go p 0 b 4;go p 4 a 3;"
+            + "accept p 3;");
         word(z, 1, 1, 0);
     }
 
@@ -358,8 +364,8 @@ final class WordBoundaries {
         }
         Sentences.about(25, "NONE if both accept the same words.");
         LetterAuction same = Check.of(ringOfAll("p", 3) + ringOfAll("q", 3).substring(10)
-            + "machine r 1 1 6;go r 0 a 1;go r 1 a 2;go r 2 a 3;go r 3 a 4;go r 4 a 5;go r 5 a 0;accept r 0;accept r 1;accept r 3;accept r 4;"
-            + "machine s 1 1 1;");
+            + "machine r 1 1 6;go r 0 a 1;go r 1 a 2;go r 2 a 3;go r 3 a 4;go r 4 a 5;go r 5 a 0;accept r 0;accept r 1;"
+            + "accept r 3;accept r 4;machine s 1 1 1;");
         Check.same("alike", -1, same.differs(0, 1));
         Check.same("with other states", -1, same.differs(0, 2));
         Check.same("with other states, in the other order", -1, same.differs(2, 1));
@@ -367,8 +373,8 @@ final class WordBoundaries {
         Check.same("with one that accepts nothing", 0, same.differs(3, 0));
         LetterAuction nothing = Check.of("letters 2;machine p 1 1 1;machine q 1 1 2;go q 0 a 1;go q 1 b 0;");
         Check.same("both accept nothing", -1, nothing.differs(0, 1));
-        LetterAuction empty = Check.of("letters 1;machine p 1 1 1;machine q 1 1 2;machine r 1 1 2;accept p 0;go q 0 a 1;go q 1 a 1;accept q 0;"
-            + "go r 0 a 1;go r 1 a 0;accept r 0;");
+        LetterAuction empty = Check.of("letters 1;machine p 1 1 1;machine q 1 1 2;machine r 1 1 2;accept p 0;"
+            + "go q 0 a 1;go q 1 a 1;accept q 0;go r 0 a 1;go r 1 a 0;accept r 0;");
         Check.same("both accept the empty word alone, the one comes to its end", -1, empty.differs(0, 1));
         Check.same("the other one goes on, and accepts again", 2, empty.differs(2, 0));
         Sentences.about(25, "Throws `IndexOutOfBoundsException` if one of the machines does not exist");
@@ -395,8 +401,8 @@ final class WordBoundaries {
     private static void lastLetterOfFour() {
         Sentences.about(23, "WORDS", "A machine accepts a word if it comes from state 0 by its letters, one after the other, "
             + "to a state that accepts");
-        LetterAuction x = Check.of("letters 4;machine p 9 1 6;machine q 9 1 6;machine r 9 1 6;machine s 9 1 6;go p 1 a 2;accept p 2;"
-            + "go q 0 d 5;accept q 5;go s 0 d 5;go s 5 d 5;accept s 4;");
+        LetterAuction x = Check.of("letters 4;machine p 9 1 6;machine q 9 1 6;machine r 9 1 6;machine s 9 1 6;"
+            + "go p 1 a 2;accept p 2;go q 0 d 5;accept q 5;go s 0 d 5;go s 5 d 5;accept s 4;");
         Check.same("shortest of p", -1, x.shortest(1));
         Check.same("words of p", 0, x.words(1, 1));
         Check.same("shortest of q", 1, x.shortest(2));
@@ -409,7 +415,8 @@ final class WordBoundaries {
 
     private static void strengthsAndCoinsPlayNoPart() {
         Sentences.about(22, "WORDS", "strengths and coins play no part in this.");
-        LetterAuction x = Check.of("letters 1;machine p 2 1 2;machine q 9 1 1;go p 0 a 1;go p 1 a 0;accept p 1;tire p 0 1;tire p 1 1;turn 20 0;");
+        LetterAuction x = Check.of("letters 1;machine p 2 1 2;machine q 9 1 1;go p 0 a 1;go p 1 a 0;accept p 1;"
+            + "tire p 0 1;tire p 1 1;turn 20 0;");
         for (int n = 0; n <= 2; n++) {
             Check.same("words(1, 19)", 1, x.words(1, 19));
             Check.same("words(1, 20)", 0, x.words(1, 20));
