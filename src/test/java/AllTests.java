@@ -5,6 +5,7 @@ public final class AllTests {
 
     public static void main(String[] args) {
         FaceTests.run();
+        ReadmeTests.run();
         TextTests.run();
         MachineTests.run();
         RoundTests.run();
